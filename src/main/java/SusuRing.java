@@ -13,6 +13,7 @@ public final class SusuRing {
     private static final int MOST_PEOPLE = 16;
     private static final int HIGHEST_AGE = 120;
     private static final int HIGHEST_NAME = 99999;
+    private static final int FIGURES = 5;
     private static final int MOST_EARNED = 10000;
     private static final int FULL_PURSE = 10000000;
 
@@ -213,15 +214,17 @@ public final class SusuRing {
         payFund(debtor, paid);
         debtor.debt -= paid;
         if (!debtor.hasLoan()) {
-            debtor.endLoan();
             debtor.paidBack++;
         }
         return debtor.debt;
     }
 
     public int month(boolean drought) {
+        if (drought) {
+            return 0;
+        }
         int defaults = 0;
-        for (int i = 0; i < people.size() && !drought; i++) {
+        for (int i = 0; i < people.size(); i++) {
             Person debtor = people.get(i);
             if (debtor.hasLoan()) {
                 debtor.ageLoan();
@@ -400,7 +403,7 @@ public final class SusuRing {
         int rest = debtor.debt - half;
         payForOther(debtor.first, half);
         payForOther(debtor.second, rest);
-        debtor.endLoan();
+        debtor.debt = 0;
         debtor.paidBack = 0;
     }
 
@@ -418,7 +421,7 @@ public final class SusuRing {
         final int[] notes;
         int purse;
         int shares;
-        /** Above 0 just while there is a loan. */
+        /** Above 0 just while there is a loan; what stands of the loan below counts only then. */
         int debt;
         int loanMonths;
         Person first;
@@ -444,11 +447,15 @@ public final class SusuRing {
         }
 
         boolean isOfHouse(Person other) {
+            int mine = name;
+            int theirs = other.name;
             int differing = 0;
-            for (int figure = 1; figure <= HIGHEST_NAME; figure *= 10) {
-                if (name / figure % 10 != other.name / figure % 10) {
+            for (int i = 0; i < FIGURES; i++) {
+                if (mine % 10 != theirs % 10) {
                     differing++;
                 }
+                mine /= 10;
+                theirs /= 10;
             }
             return differing <= 1;
         }
@@ -476,13 +483,6 @@ public final class SusuRing {
             loanMonths++;
         }
 
-        void endLoan() {
-            debt = 0;
-            loanMonths = 0;
-            first = null;
-            second = null;
-        }
-
         void bequeath(Person heir) {
             heir.purse += purse;
             heir.shares += shares;
@@ -494,7 +494,7 @@ public final class SusuRing {
             heir.debt += debt;
             purse = 0;
             shares = 0;
-            endLoan();
+            debt = 0;
             dead = true;
         }
     }
@@ -572,7 +572,8 @@ public final class SusuRing {
             for (int i = 0; i < places.size() && hasOrder(); i++) {
                 order.add(places.get(i));
             }
-            for (int placed = 0; placed < order.size(); placed++) {
+            int members = order.size();
+            for (int placed = 0; placed < members; placed++) {
                 int chosen = way == LOT ? drawn(seed, placed) : eldest(placed);
                 if (chosen >= placed && chosen < order.size()) {
                     Place next = order.get(chosen);
