@@ -58,8 +58,8 @@ final class Check {
     /** All that can be asked of the object, as one text. */
     static String state(SusuRing x) {
         StringBuilder all = new StringBuilder();
-        int people = count(16, p -> x.of(p, 0));
-        int circles = count(4, c -> x.ofCircle(c, 0));
+        int people = people(x);
+        int circles = circles(x);
         for (int p = 0; p < people; p++) {
             all.append("\nperson ").append(p).append(':');
             for (int what = 0; what <= 6; what++) {
@@ -82,6 +82,14 @@ final class Check {
             all.append(' ').append(x.audit(book));
         }
         return all.toString();
+    }
+
+    static int people(SusuRing x) {
+        return count(16, p -> x.of(p, 0));
+    }
+
+    static int circles(SusuRing x) {
+        return count(4, c -> x.ofCircle(c, 0));
     }
 
     private interface Question {
