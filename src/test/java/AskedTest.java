@@ -17,16 +17,16 @@ public final class AskedTest {
     }
 
     private static void note() {
-        SusuRing x = new SusuRing();
+        Counted x = new Counted();
         x.person(20, 1);
         x.person(20, 22);
-        Check.outOfIndex(x, "note(3, 0, 0)", () -> x.note(3, 0, 0));
-        Check.outOfIndex(x, "note(-1, 0, 0)", () -> x.note(-1, 0, 0));
-        Check.outOfIndex(x, "note(0, 2, 0)", () -> x.note(0, 2, 0));
-        Check.outOfIndex(x, "note(0, -1, 10001)", () -> x.note(0, -1, 10001));
-        Check.outOfIndex(x, "note(3, 0, 10001)", () -> x.note(3, 0, 10001));
-        Check.badArgument(x, "note(0, 0, 10001)", () -> x.note(0, 0, 10001));
-        Check.badArgument(x, "note(0, 0, -10001)", () -> x.note(0, 0, -10001));
+        Check.outOfIndex(x, "note(3, 0, 0)", o -> o.note(3, 0, 0));
+        Check.outOfIndex(x, "note(-1, 0, 0)", o -> o.note(-1, 0, 0));
+        Check.outOfIndex(x, "note(0, 2, 0)", o -> o.note(0, 2, 0));
+        Check.outOfIndex(x, "note(0, -1, 10001)", o -> o.note(0, -1, 10001));
+        Check.outOfIndex(x, "note(3, 0, 10001)", o -> o.note(3, 0, 10001));
+        Check.badArgument(x, "note(0, 0, 10001)", o -> o.note(0, 0, 10001));
+        Check.badArgument(x, "note(0, 0, -10001)", o -> o.note(0, 0, -10001));
         Check.due("note(0, 0, 10000)", x.note(0, 0, 10000), 10000);
         Check.due("note(0, 0, 10000)", x.note(0, 0, 10000), 20000);
         Check.due("note(0, 0, -10000)", x.note(0, 0, -10000), 10000);
@@ -40,9 +40,9 @@ public final class AskedTest {
     }
 
     private static void audit() {
-        SusuRing x = new SusuRing();
-        Check.outOfIndex(x, "audit(3)", () -> x.audit(3));
-        Check.outOfIndex(x, "audit(-1)", () -> x.audit(-1));
+        Counted x = new Counted();
+        Check.outOfIndex(x, "audit(3)", o -> o.audit(3));
+        Check.outOfIndex(x, "audit(-1)", o -> o.audit(-1));
         for (int p = 0; p < 3; p++) {
             x.person(20, p * 11111);
             x.earn(p, 100);
@@ -63,7 +63,7 @@ public final class AskedTest {
     }
 
     private static void auditOfTheDead() {
-        SusuRing x = new SusuRing();
+        Counted x = new Counted();
         x.person(20, 0);
         x.person(20, 1);
         x.earn(0, 100);
@@ -80,13 +80,13 @@ public final class AskedTest {
     }
 
     private static void of() {
-        SusuRing x = new SusuRing();
-        Check.outOfIndex(x, "of(0, 7)", () -> x.of(0, 7));
+        Counted x = new Counted();
+        Check.outOfIndex(x, "of(0, 7)", o -> o.of(0, 7));
         x.person(20, 5);
-        Check.outOfIndex(x, "of(-1, 0)", () -> x.of(-1, 0));
-        Check.outOfIndex(x, "of(1, -1)", () -> x.of(1, -1));
-        Check.badArgument(x, "of(0, -1)", () -> x.of(0, -1));
-        Check.badArgument(x, "of(0, 7)", () -> x.of(0, 7));
+        Check.outOfIndex(x, "of(-1, 0)", o -> o.of(-1, 0));
+        Check.outOfIndex(x, "of(1, -1)", o -> o.of(1, -1));
+        Check.badArgument(x, "of(0, -1)", o -> o.of(0, -1));
+        Check.badArgument(x, "of(0, 7)", o -> o.of(0, 7));
         x.person(20, 11155);
         x.person(20, 22255);
         for (int p = 0; p < 3; p++) {
@@ -103,7 +103,7 @@ public final class AskedTest {
     }
 
     private static void houses() {
-        SusuRing x = new SusuRing();
+        Counted x = new Counted();
         int[] names = {0, 90000, 9, 900, 99, 0, 90001, 12345};
         int[] due = {5, 4, 4, 3, 2, 5, 2, 1};
         for (int name : names) {
@@ -121,7 +121,7 @@ public final class AskedTest {
     }
 
     private static void eachFigure() {
-        SusuRing x = new SusuRing();
+        Counted x = new Counted();
         x.person(20, 55555);
         for (int figure = 1; figure <= 10000; figure *= 10) {
             int p = x.person(20, 55555 + figure);
@@ -134,16 +134,16 @@ public final class AskedTest {
     }
 
     private static void member() {
-        SusuRing x = new SusuRing();
+        Counted x = new Counted();
         for (int p = 0; p < 3; p++) {
             x.person(20, p * 11111);
         }
-        Check.outOfIndex(x, "member(0, 0, 0)", () -> x.member(0, 0, 0));
+        Check.outOfIndex(x, "member(0, 0, 0)", o -> o.member(0, 0, 0));
         x.circle(10, SusuRing.NEED);
-        Check.outOfIndex(x, "member(-1, 0, 4)", () -> x.member(-1, 0, 4));
-        Check.outOfIndex(x, "member(0, 3, -1)", () -> x.member(0, 3, -1));
-        Check.badArgument(x, "member(0, 0, -1)", () -> x.member(0, 0, -1));
-        Check.badArgument(x, "member(0, 0, 4)", () -> x.member(0, 0, 4));
+        Check.outOfIndex(x, "member(-1, 0, 4)", o -> o.member(-1, 0, 4));
+        Check.outOfIndex(x, "member(0, 3, -1)", o -> o.member(0, 3, -1));
+        Check.badArgument(x, "member(0, 0, -1)", o -> o.member(0, 0, -1));
+        Check.badArgument(x, "member(0, 0, 4)", o -> o.member(0, 0, 4));
         for (int what = 0; what <= 3; what++) {
             Check.due("no member", x.member(0, 0, what), SusuRing.NONE);
         }
@@ -161,18 +161,18 @@ public final class AskedTest {
     }
 
     private static void ofCircle() {
-        SusuRing x = new SusuRing();
+        Counted x = new Counted();
         for (int p = 0; p < 3; p++) {
             x.person(20 + p, p * 11111);
             x.earn(p, 100);
         }
-        Check.outOfIndex(x, "ofCircle(0, 5)", () -> x.ofCircle(0, 5));
+        Check.outOfIndex(x, "ofCircle(0, 5)", o -> o.ofCircle(0, 5));
         x.circle(10, SusuRing.BID);
         x.circle(10, SusuRing.AGE);
-        Check.outOfIndex(x, "ofCircle(2, 0)", () -> x.ofCircle(2, 0));
-        Check.outOfIndex(x, "ofCircle(-1, -1)", () -> x.ofCircle(-1, -1));
-        Check.badArgument(x, "ofCircle(0, -1)", () -> x.ofCircle(0, -1));
-        Check.badArgument(x, "ofCircle(0, 5)", () -> x.ofCircle(0, 5));
+        Check.outOfIndex(x, "ofCircle(2, 0)", o -> o.ofCircle(2, 0));
+        Check.outOfIndex(x, "ofCircle(-1, -1)", o -> o.ofCircle(-1, -1));
+        Check.badArgument(x, "ofCircle(0, -1)", o -> o.ofCircle(0, -1));
+        Check.badArgument(x, "ofCircle(0, 5)", o -> o.ofCircle(0, 5));
         for (int p = 0; p < 3; p++) {
             x.enter(0, p);
             x.enter(1, p);
@@ -192,7 +192,7 @@ public final class AskedTest {
     }
 
     private static void cashAndCoins() {
-        SusuRing x = new SusuRing();
+        Counted x = new Counted();
         for (int p = 0; p < 3; p++) {
             x.person(20 + p, p * 11111);
             x.earn(p, 500);
@@ -221,7 +221,7 @@ public final class AskedTest {
     }
 
     private static void questionsChangeNothing() {
-        SusuRing x = new SusuRing();
+        Counted x = new Counted();
         for (int p = 0; p < 3; p++) {
             x.person(20 + p, p);
             x.earn(p, 500);
@@ -232,7 +232,22 @@ public final class AskedTest {
         x.enter(0, 2);
         x.start(0, 1);
         x.meet(0, false);
-        String once = Check.state(x);
-        Check.due("asked twice", Check.state(x), once);
+        String before = Views.of(x);
+        for (int p = 0; p < 3; p++) {
+            int person = p;
+            for (int i = 0; i <= 6; i++) {
+                int what = i;
+                x.act(y -> y.of(person, what));
+            }
+            for (int i = 0; i <= 3; i++) {
+                int what = i;
+                x.act(y -> y.member(0, person, what));
+                x.act(y -> y.ofCircle(0, what + 1));
+            }
+            x.act(y -> y.audit(person));
+        }
+        x.act(SusuRing::cash);
+        x.act(SusuRing::coins);
+        Check.due("what is asked changes nothing", Views.of(x), before);
     }
 }

@@ -29,7 +29,7 @@ public final class BookEdgesTest {
         Check.end("BookEdgesTest");
     }
 
-    private static SusuRing two() {
+    private static Counted two() {
         return Village.people(2, 100);
     }
 
@@ -37,7 +37,7 @@ public final class BookEdgesTest {
         Edge.indexOutside("note(book, 0, 5)", BookEdgesTest::two, 2, (x, book) -> x.note(book, 0, 5));
         Edge.indexOutside("note(0, person, 5) of 2", BookEdgesTest::two, 1, (x, p) -> x.note(0, p, 5));
         Edge.indexOutside("note(2, person, 5) of 16", () -> Village.people(16, 0), 15, (x, p) -> x.note(2, p, 5));
-        Edge.index("of none", SusuRing::new, x -> x.note(0, 0, 5));
+        Edge.index("of none", Counted::new, x -> x.note(0, 0, 5));
         Edge.due("note(2, 15, 5)", Village.people(16, 0).note(2, 15, 5), 5);
     }
 
@@ -53,7 +53,7 @@ public final class BookEdgesTest {
     }
 
     private static void noteAnswers() {
-        SusuRing x = two();
+        Counted x = two();
         for (int time = 1; time <= 100; time++) {
             Edge.due("notes add up", x.note(1, 0, 10000), 10000 * time);
             Edge.due("below 0, too", x.note(1, 1, -10000), -10000 * time);
@@ -62,7 +62,7 @@ public final class BookEdgesTest {
         Edge.due("another book", x.note(2, 1, 0), 0);
         Edge.due("to 0 again", Edge.with(two(), y -> y.note(0, 0, 7)).note(0, 0, -7), 0);
         Edge.due("of the dead", Edge.with(two(), y -> y.die(0, 1)).note(0, 0, 7), 7);
-        SusuRing z = two();
+        Counted z = two();
         z.note(0, 0, 7);
         z.die(0, 1);
         Edge.due("what is noted does not go to heirs", z.note(0, 1, 0), 0);
@@ -78,14 +78,14 @@ public final class BookEdgesTest {
 
     private static void auditNowhere() {
         Edge.indexOutside("audit(book)", BookEdgesTest::two, 2, (x, book) -> x.audit(book));
-        Edge.indexOutside("audit(book) without people", SusuRing::new, 2, (x, book) -> x.audit(book));
+        Edge.indexOutside("audit(book) without people", Counted::new, 2, (x, book) -> x.audit(book));
     }
 
     private static void lowestPerson() {
         for (int book = 0; book <= 2; book++) {
-            Edge.due("no people", new SusuRing().audit(book), SusuRing.NONE);
+            Edge.due("no people", new Counted().audit(book), SusuRing.NONE);
             Edge.due("16 people", Village.people(16, 5).audit(book), SusuRing.NONE);
-            SusuRing x = Village.holders(16, 1, 0);
+            Counted x = Village.holders(16, 1, 0);
             for (int p = 0; p < 16; p++) {
                 Edge.due("the lowest", x.audit(book), p);
                 x.note(book, p, 10);
@@ -101,12 +101,12 @@ public final class BookEdgesTest {
     private static void whatIsTrue() {
         int[] notes = {9, 10, 11, -10};
         for (int note : notes) {
-            SusuRing x = Village.holders(1, 1, 0);
+            Counted x = Village.holders(1, 1, 0);
             x.note(1, 0, note);
             Edge.due("10 is true, noted is " + note, x.audit(1), note == 10 ? SusuRing.NONE : 0);
             Edge.due("another book", x.audit(2), 0);
         }
-        SusuRing y = Village.started(2, 10, 10, SusuRing.AGE);
+        Counted y = Village.started(2, 10, 10, SusuRing.AGE);
         y.meet(0, false);
         y.note(0, 0, -10);
         Edge.due("below 0", y.audit(0), 1);
@@ -115,7 +115,7 @@ public final class BookEdgesTest {
     }
 
     private static void paidLessGot() {
-        SusuRing x = Village.people(3, 1000);
+        Counted x = Village.people(3, 1000);
         Edge.due("earned is not paid", x.of(0, 4), 0);
         x.buy(0, 10);
         x.buy(1, 10);
@@ -136,7 +136,7 @@ public final class BookEdgesTest {
         Edge.due("paid in 30, got the pot less the discount", x.of(1, 4), 100 + 30 - 80);
         x.feast();
         Edge.due("a feast", x.of(0, 4), 25);
-        SusuRing y = Edge.with(Village.started(3, 100, 10, SusuRing.BID), z -> {
+        Counted y = Edge.with(Village.started(3, 100, 10, SusuRing.BID), z -> {
             z.want(0, 0, 3, true);
             z.meet(0, false);
             z.leave(0, 1);
@@ -145,7 +145,7 @@ public final class BookEdgesTest {
     }
 
     private static void paidByVouching() {
-        SusuRing x = Village.holders(3, 10, 100);
+        Counted x = Village.holders(3, 10, 100);
         x.borrow(0, 49, 1, 2);
         Village.months(x, 7);
         Edge.due("the first", x.of(1, 4), 100 + 36);
@@ -158,20 +158,20 @@ public final class BookEdgesTest {
     }
 
     private static void sinceEver() {
-        SusuRing x = Village.people(2, 30);
+        Counted x = Village.people(2, 30);
         for (int year = 1; year <= 3; year++) {
             x.buy(0, 2);
             x.buy(1, 1);
             x.feast();
             Edge.due("behind a feast", x.of(0, 4), 0);
         }
-        SusuRing y = Village.started(2, 100, 10, SusuRing.AGE);
+        Counted y = Village.started(2, 100, 10, SusuRing.AGE);
         y.meet(0, false);
         y.meet(0, false);
         y.meet(0, false);
         Edge.due("a new round forgets nothing", y.of(0, 4), -10);
         Edge.due("a new round forgets nothing", y.of(1, 4), 10);
-        SusuRing z = Village.started(3, 100, 10, SusuRing.AGE);
+        Counted z = Village.started(3, 100, 10, SusuRing.AGE);
         z.meet(0, false);
         z.leave(0, 2);
         Edge.due("leaving forgets nothing", z.of(2, 4), 10);
@@ -198,7 +198,7 @@ public final class BookEdgesTest {
         Edge.argumentOutside("of(0, what)", BookEdgesTest::two, 0, 6, (x, what) -> x.of(0, what));
         Edge.argumentOutside("of(0, what) of the dead", () -> Edge.with(two(), x -> x.die(0, 1)), 0, 6,
             (x, what) -> x.of(0, what));
-        SusuRing x = Village.holders(3, 5, 7);
+        Counted x = Village.holders(3, 5, 7);
         x.borrow(0, 1, 1, 2);
         x.repay(0, 1);
         x.borrow(0, 2, 1, 2);
@@ -214,8 +214,8 @@ public final class BookEdgesTest {
     }
 
     /** 16 people, and four circles with 0 and 15 as members. */
-    private static SusuRing full() {
-        SusuRing x = Village.people(16, 100);
+    private static Counted full() {
+        Counted x = Village.people(16, 100);
         for (int c = 0; c < 4; c++) {
             x.circle(10, c);
             x.enter(c, 15);
@@ -241,12 +241,12 @@ public final class BookEdgesTest {
         Edge.argumentOutside("member(0, 0, what)", BookEdgesTest::full, 0, 3, (x, what) -> x.member(0, 0, what));
         Edge.argumentOutside("member(0, 1, what) of no member", BookEdgesTest::full, 0, 3,
             (x, what) -> x.member(0, 1, what));
-        SusuRing x = full();
+        Counted x = full();
         for (int c = 0; c < 4; c++) {
             Edge.due("the first place", x.member(c, 15, 3), 0);
             Edge.due("the second place", x.member(c, 0, 3), 1);
         }
-        SusuRing y = Village.started(3, 0, 10, SusuRing.AGE);
+        Counted y = Village.started(3, 0, 10, SusuRing.AGE);
         y.earn(0, 3);
         y.meet(0, true);
         int[] due = {7, 1, 3, 0};
@@ -254,7 +254,7 @@ public final class BookEdgesTest {
             Edge.due("member(0, 0, " + what + ")", y.member(0, 0, what), due[what]);
         }
         Edge.due("no turn", y.member(0, 2, 1), 0);
-        SusuRing ten = Village.circle(10, 0, 10, 0);
+        Counted ten = Village.circle(10, 0, 10, 0);
         Edge.due("the last place of ten", ten.member(0, 9, 3), 9);
     }
 
@@ -282,7 +282,7 @@ public final class BookEdgesTest {
 
     private static void ofCircleRange() {
         Edge.argumentOutside("ofCircle(0, what)", BookEdgesTest::full, 0, 4, (x, what) -> x.ofCircle(0, what));
-        SusuRing x = Village.started(3, 100, 10, SusuRing.BID);
+        Counted x = Village.started(3, 100, 10, SusuRing.BID);
         for (int meeting = 0; meeting < 4; meeting++) {
             x.want(0, meeting % 3, 3, true);
             x.meet(0, false);
@@ -298,7 +298,7 @@ public final class BookEdgesTest {
             Edge.due("no members", Village.circle(0, 0, 10, way).ofCircle(0, 4), SusuRing.NONE);
             Edge.due("not started", Village.circle(3, 0, 10, way).ofCircle(0, 4), SusuRing.NONE);
             Edge.due("started", Village.started(3, 0, 10, way).ofCircle(0, 4), 0);
-            SusuRing x = Village.started(2, 0, 10, way);
+            Counted x = Village.started(2, 0, 10, way);
             x.leave(0, 0);
             Edge.due("one member", x.ofCircle(0, 4), 1);
             x.leave(0, 1);
@@ -307,7 +307,7 @@ public final class BookEdgesTest {
     }
 
     private static void cash() {
-        SusuRing x = Village.holders(3, 1, 100);
+        Counted x = Village.holders(3, 1, 100);
         Edge.due("shares", x.cash(), 30);
         x.borrow(0, 30, 1, 2);
         Edge.due("an empty fund", x.cash(), 0);
@@ -327,17 +327,17 @@ public final class BookEdgesTest {
     }
 
     private static void coins() {
-        Edge.due("a new object", new SusuRing().coins(), 0);
-        SusuRing x = Village.people(3, 100);
+        Edge.due("a new object", new Counted().coins(), 0);
+        Counted x = Village.people(3, 100);
         Edge.due("earned", x.coins(), 0);
         x.earn(0, -99);
         Edge.due("spent", x.coins(), 0);
-        SusuRing y = Village.started(3, 100, 10, SusuRing.BID);
+        Counted y = Village.started(3, 100, 10, SusuRing.BID);
         y.want(0, 0, 5, true);
         y.meet(0, false);
         Edge.due("a coin is in the box", y.ofCircle(0, 0), 1);
         Edge.due("in boxes", y.coins(), 0);
-        SusuRing z = Village.holders(3, 10, 30);
+        Counted z = Village.holders(3, 10, 30);
         Edge.due("in the fund", z.coins(), 0);
         z.borrow(0, 50, 1, 2);
         Edge.due("lent", z.coins(), 0);
@@ -349,8 +349,8 @@ public final class BookEdgesTest {
         Edge.due("inherited", z.coins(), 0);
     }
 
-    private static SusuRing busy() {
-        SusuRing x = Village.holders(4, 10, 100);
+    private static Counted busy() {
+        Counted x = Village.holders(4, 10, 100);
         for (int way = SusuRing.LOT; way <= SusuRing.BID; way++) {
             x.circle(30, way);
             Village.enterAll(x, way, 4);
@@ -367,26 +367,34 @@ public final class BookEdgesTest {
     }
 
     private static void questions() {
-        SusuRing x = busy();
-        for (int time = 0; time < 3; time++) {
-            for (int p = 0; p < 4; p++) {
-                for (int what = 0; what <= 6; what++) {
-                    x.of(p, what);
-                }
-                for (int what = 0; what <= 3; what++) {
-                    x.member(p, 3 - p, what);
-                }
-                for (int what = 0; what <= 4; what++) {
-                    x.ofCircle(p, what);
-                }
-            }
-            for (int book = 0; book <= 2; book++) {
-                x.audit(book);
-            }
-            x.cash();
-            x.coins();
+        String due = Views.of(busy());
+        Check.due("Questions change nothing: of", Views.of(Edge.with(busy(), BookEdgesTest::askOfPeople)), due);
+        Check.due("Questions change nothing: member", Views.of(Edge.with(busy(), BookEdgesTest::askOfMembers)), due);
+        Check.due("Questions change nothing: the rest", Views.of(Edge.with(busy(), BookEdgesTest::askTheRest)), due);
+    }
+
+    private static void askOfPeople(Counted x) {
+        for (int i = 0; i < 2 * 4 * 7; i++) {
+            int question = i;
+            x.act(y -> y.of(question % 4, question / 8));
         }
-        Check.due("Questions change nothing", Edge.future(x), Edge.future(busy()));
+    }
+
+    private static void askOfMembers(Counted x) {
+        for (int i = 0; i < 4 * 4 * 4; i++) {
+            int question = i;
+            x.act(y -> y.member(question % 4, question / 4 % 4, question / 16));
+        }
+    }
+
+    private static void askTheRest(Counted x) {
+        for (int i = 0; i < 2 * 4 * 5; i++) {
+            int question = i;
+            x.act(y -> y.ofCircle(question % 4, question / 8));
+            x.act(y -> y.audit(question % 3));
+            x.act(SusuRing::cash);
+            x.act(SusuRing::coins);
+        }
     }
 
     private static void constants() {

@@ -31,8 +31,8 @@ public final class CircleEdgesTest {
         Check.end("CircleEdgesTest");
     }
 
-    private static SusuRing circles(int count) {
-        SusuRing x = new SusuRing();
+    private static Counted circles(int count) {
+        Counted x = new Counted();
         for (int c = 0; c < count; c++) {
             x.circle(10, c);
         }
@@ -52,15 +52,15 @@ public final class CircleEdgesTest {
     }
 
     private static void sums() {
-        Edge.argumentOutside("circle(sum, LOT)", SusuRing::new, 1, 1000, (x, sum) -> x.circle(sum, SusuRing.LOT));
-        Edge.due("circle(1, LOT)", new SusuRing().circle(1, SusuRing.LOT), 0);
-        Edge.due("circle(1000, LOT)", new SusuRing().circle(1000, SusuRing.LOT), 0);
+        Edge.argumentOutside("circle(sum, LOT)", Counted::new, 1, 1000, (x, sum) -> x.circle(sum, SusuRing.LOT));
+        Edge.due("circle(1, LOT)", new Counted().circle(1, SusuRing.LOT), 0);
+        Edge.due("circle(1000, LOT)", new Counted().circle(1000, SusuRing.LOT), 0);
     }
 
     private static void ways() {
-        Edge.argumentOutside("circle(5, way)", SusuRing::new, 0, 3, (x, way) -> x.circle(5, way));
+        Edge.argumentOutside("circle(5, way)", Counted::new, 0, 3, (x, way) -> x.circle(5, way));
         for (int way = SusuRing.LOT; way <= SusuRing.BID; way++) {
-            Edge.due("circle(5, " + way + ")", new SusuRing().circle(5, way), 0);
+            Edge.due("circle(5, " + way + ")", new Counted().circle(5, way), 0);
         }
     }
 
@@ -72,7 +72,7 @@ public final class CircleEdgesTest {
     }
 
     private static void emptyBox() {
-        SusuRing x = circles(4);
+        Counted x = circles(4);
         for (int c = 0; c < 4; c++) {
             for (int what = 0; what <= 3; what++) {
                 Edge.due("ofCircle(" + c + ", " + what + ")", x.ofCircle(c, what), 0);
@@ -81,8 +81,8 @@ public final class CircleEdgesTest {
     }
 
     /** 16 people, and four circles without members. */
-    private static SusuRing full() {
-        SusuRing x = Village.people(16, 100);
+    private static Counted full() {
+        Counted x = Village.people(16, 100);
         for (int c = 0; c < 4; c++) {
             x.circle(10, c);
         }
@@ -100,7 +100,7 @@ public final class CircleEdgesTest {
             (x, p) -> x.enter(0, p));
     }
 
-    private static SusuRing entered(int members) {
+    private static Counted entered(int members) {
         return Edge.with(full(), x -> Village.enterAll(x, 0, members));
     }
 
@@ -117,7 +117,7 @@ public final class CircleEdgesTest {
     }
 
     private static void orderOfEntering() {
-        SusuRing x = full();
+        Counted x = full();
         for (int p = 0; p < 10; p++) {
             Edge.due("enter(0, " + (15 - p) + ")", x.enter(0, 15 - p), p + 1);
         }
@@ -216,7 +216,7 @@ public final class CircleEdgesTest {
     }
 
     private static void startAnswers() {
-        SusuRing x = new SusuRing();
+        Counted x = new Counted();
         x.person(1, 0);
         x.person(120, 11111);
         for (int way = SusuRing.LOT; way <= SusuRing.BID; way++) {
@@ -242,7 +242,7 @@ public final class CircleEdgesTest {
     }
 
     private static void turnsByAge(int[] ages, int[] entering, int[] due) {
-        SusuRing x = new SusuRing();
+        Counted x = new Counted();
         for (int p = 0; p < ages.length; p++) {
             x.person(ages[p], Village.nameOf(p));
         }
@@ -254,7 +254,7 @@ public final class CircleEdgesTest {
         checkTurns(x, due);
     }
 
-    private static void checkTurns(SusuRing x, int[] due) {
+    private static void checkTurns(Counted x, int[] due) {
         for (int i = 0; i <= due.length; i++) {
             int next = due[i % due.length];
             Edge.due("who would have the turn", x.ofCircle(0, 4), next);
@@ -277,10 +277,10 @@ public final class CircleEdgesTest {
     }
 
     private static void turnsByLot(int members, int seed, int[] due) {
-        SusuRing x = Village.circle(members, 0, 5, SusuRing.LOT);
+        Counted x = Village.circle(members, 0, 5, SusuRing.LOT);
         Edge.due("start with " + seed, x.start(0, seed), due[0]);
         checkTurns(x, due);
-        SusuRing y = Village.people(16, 0);
+        Counted y = Village.people(16, 0);
         y.circle(5, SusuRing.LOT);
         for (int p = 0; p < members; p++) {
             y.enter(0, 15 - p);
@@ -303,7 +303,7 @@ public final class CircleEdgesTest {
             (x, amount) -> x.want(0, 0, amount, false));
         boolean[] kinds = {true, false};
         for (boolean isBid : kinds) {
-            SusuRing x = entered(2);
+            Counted x = entered(2);
             Edge.due("at first", x.want(0, 0, 10000, isBid), 0);
             Edge.due("what it was", x.want(0, 0, 0, isBid), 10000);
             Edge.due("what it was", x.want(0, 0, 1, isBid), 0);
@@ -333,7 +333,7 @@ public final class CircleEdgesTest {
     }
 
     private static void wantsAtFirst() {
-        SusuRing x = entered(10);
+        Counted x = entered(10);
         for (int p = 0; p < 10; p++) {
             Edge.due("the arrears", x.member(0, p, 0), 0);
             Edge.due("the turn", x.member(0, p, 1), 0);
@@ -341,7 +341,7 @@ public final class CircleEdgesTest {
             Edge.due("the need", x.want(0, p, 0, false), 0);
             Edge.due("the bid", x.want(0, p, 0, true), 0);
         }
-        SusuRing y = Edge.with(entered(2), z -> {
+        Counted y = Edge.with(entered(2), z -> {
             z.want(0, 0, 7, true);
             z.want(0, 0, 8, false);
             z.leave(0, 0);

@@ -24,8 +24,8 @@ public final class CirclesTest {
         Check.end("CirclesTest");
     }
 
-    private static SusuRing people(int count, int earned) {
-        SusuRing x = new SusuRing();
+    private static Counted people(int count, int earned) {
+        Counted x = new Counted();
         for (int p = 0; p < count; p++) {
             x.person(30, p);
             x.earn(p, earned);
@@ -33,8 +33,8 @@ public final class CirclesTest {
         return x;
     }
 
-    private static SusuRing started(int members, int earned, int sum, int way) {
-        SusuRing x = people(members, earned);
+    private static Counted started(int members, int earned, int sum, int way) {
+        Counted x = people(members, earned);
         x.circle(sum, way);
         for (int p = 0; p < members; p++) {
             x.enter(0, p);
@@ -44,12 +44,12 @@ public final class CirclesTest {
     }
 
     private static void circle() {
-        SusuRing x = new SusuRing();
-        Check.badArgument(x, "circle(0, 0)", () -> x.circle(0, 0));
-        Check.badArgument(x, "circle(-1, 0)", () -> x.circle(-1, 0));
-        Check.badArgument(x, "circle(1001, 0)", () -> x.circle(1001, 0));
-        Check.badArgument(x, "circle(1, -1)", () -> x.circle(1, -1));
-        Check.badArgument(x, "circle(1, 4)", () -> x.circle(1, 4));
+        Counted x = new Counted();
+        Check.badArgument(x, "circle(0, 0)", o -> o.circle(0, 0));
+        Check.badArgument(x, "circle(-1, 0)", o -> o.circle(-1, 0));
+        Check.badArgument(x, "circle(1001, 0)", o -> o.circle(1001, 0));
+        Check.badArgument(x, "circle(1, -1)", o -> o.circle(1, -1));
+        Check.badArgument(x, "circle(1, 4)", o -> o.circle(1, 4));
         Check.due("circle(1, LOT)", x.circle(1, SusuRing.LOT), 0);
         Check.due("circle(1000, AGE)", x.circle(1000, SusuRing.AGE), 1);
         Check.due("circle(5, NEED)", x.circle(5, SusuRing.NEED), 2);
@@ -58,51 +58,51 @@ public final class CirclesTest {
             Check.due("ofCircle(3, " + what + ")", x.ofCircle(3, what), 0);
         }
         Check.due("ofCircle(3, 4)", x.ofCircle(3, 4), SusuRing.NONE);
-        Check.badState(x, "a fifth circle", () -> x.circle(1, 0));
-        Check.badArgument(x, "a fifth circle of way 4", () -> x.circle(1, 4));
+        Check.badState(x, "a fifth circle", o -> o.circle(1, 0));
+        Check.badArgument(x, "a fifth circle of way 4", o -> o.circle(1, 4));
     }
 
     private static void enter() {
-        SusuRing x = people(13, 0);
+        Counted x = people(13, 0);
         x.circle(5, SusuRing.NEED);
-        Check.outOfIndex(x, "enter(1, 0)", () -> x.enter(1, 0));
-        Check.outOfIndex(x, "enter(-1, 0)", () -> x.enter(-1, 0));
-        Check.outOfIndex(x, "enter(0, 13)", () -> x.enter(0, 13));
-        Check.outOfIndex(x, "enter(0, -1)", () -> x.enter(0, -1));
+        Check.outOfIndex(x, "enter(1, 0)", o -> o.enter(1, 0));
+        Check.outOfIndex(x, "enter(-1, 0)", o -> o.enter(-1, 0));
+        Check.outOfIndex(x, "enter(0, 13)", o -> o.enter(0, 13));
+        Check.outOfIndex(x, "enter(0, -1)", o -> o.enter(0, -1));
         x.die(12, 0);
-        Check.badState(x, "the dead", () -> x.enter(0, 12));
+        Check.badState(x, "the dead", o -> o.enter(0, 12));
         for (int p = 0; p < 10; p++) {
             Check.due("enter(0, " + (9 - p) + ")", x.enter(0, 9 - p), p + 1);
         }
         for (int p = 0; p < 10; p++) {
             Check.due("place of " + p, x.member(0, p, 3), 9 - p);
         }
-        Check.badState(x, "an eleventh", () -> x.enter(0, 10));
+        Check.badState(x, "an eleventh", o -> o.enter(0, 10));
         x.leave(0, 5);
-        Check.badState(x, "a member", () -> x.enter(0, 4));
+        Check.badState(x, "a member", o -> o.enter(0, 4));
         Check.due("enter(0, 10)", x.enter(0, 10), 10);
         Check.due("the last place", x.member(0, 10, 3), 9);
         Check.due("the place of 4 moved on", x.member(0, 4, 3), 4);
         x.leave(0, 10);
         x.start(0, 0);
-        Check.badState(x, "a started circle", () -> x.enter(0, 10));
-        Check.outOfIndex(x, "enter(0, 13) into a started circle", () -> x.enter(0, 13));
+        Check.badState(x, "a started circle", o -> o.enter(0, 10));
+        Check.outOfIndex(x, "enter(0, 13) into a started circle", o -> o.enter(0, 13));
     }
 
     private static void startRefusals() {
-        SusuRing x = people(3, 0);
+        Counted x = people(3, 0);
         x.circle(5, SusuRing.AGE);
-        Check.outOfIndex(x, "start(1, 0)", () -> x.start(1, 0));
-        Check.outOfIndex(x, "start(-1, -1)", () -> x.start(-1, -1));
-        Check.badArgument(x, "start(0, -1)", () -> x.start(0, -1));
-        Check.badArgument(x, "start(0, 10000)", () -> x.start(0, 10000));
-        Check.badState(x, "start without members", () -> x.start(0, 0));
+        Check.outOfIndex(x, "start(1, 0)", o -> o.start(1, 0));
+        Check.outOfIndex(x, "start(-1, -1)", o -> o.start(-1, -1));
+        Check.badArgument(x, "start(0, -1)", o -> o.start(0, -1));
+        Check.badArgument(x, "start(0, 10000)", o -> o.start(0, 10000));
+        Check.badState(x, "start without members", o -> o.start(0, 0));
         x.enter(0, 2);
-        Check.badState(x, "start with one member", () -> x.start(0, 0));
+        Check.badState(x, "start with one member", o -> o.start(0, 0));
         x.enter(0, 0);
         Check.due("start(0, 9999)", x.start(0, 9999), 2);
-        Check.badState(x, "start again", () -> x.start(0, 0));
-        Check.badArgument(x, "start again with seed -1", () -> x.start(0, -1));
+        Check.badState(x, "start again", o -> o.start(0, 0));
+        Check.badArgument(x, "start again with seed -1", o -> o.start(0, -1));
         x.circle(5, SusuRing.NEED);
         x.circle(5, SusuRing.BID);
         for (int c = 1; c <= 2; c++) {
@@ -114,7 +114,7 @@ public final class CirclesTest {
     }
 
     private static void startByAge() {
-        SusuRing x = new SusuRing();
+        Counted x = new Counted();
         int[] ages = {40, 70, 20, 70, 1, 120, 40};
         for (int p = 0; p < ages.length; p++) {
             x.person(ages[p], p);
@@ -142,7 +142,7 @@ public final class CirclesTest {
     }
 
     private static void lot(int seed, int[] entering, int[] due) {
-        SusuRing x = people(entering.length, 0);
+        Counted x = people(entering.length, 0);
         x.circle(5, SusuRing.LOT);
         for (int p : entering) {
             x.enter(0, p);
@@ -156,15 +156,15 @@ public final class CirclesTest {
     }
 
     private static void want() {
-        SusuRing x = people(3, 100);
+        Counted x = people(3, 100);
         x.circle(5, SusuRing.NEED);
         x.enter(0, 0);
         x.enter(0, 1);
-        Check.outOfIndex(x, "want(1, 0, 1, true)", () -> x.want(1, 0, 1, true));
-        Check.outOfIndex(x, "want(0, 3, -1, true)", () -> x.want(0, 3, -1, true));
-        Check.badArgument(x, "want(0, 0, -1, true)", () -> x.want(0, 0, -1, true));
-        Check.badArgument(x, "want(0, 2, 10001, false)", () -> x.want(0, 2, 10001, false));
-        Check.badState(x, "want of no member", () -> x.want(0, 2, 1, false));
+        Check.outOfIndex(x, "want(1, 0, 1, true)", o -> o.want(1, 0, 1, true));
+        Check.outOfIndex(x, "want(0, 3, -1, true)", o -> o.want(0, 3, -1, true));
+        Check.badArgument(x, "want(0, 0, -1, true)", o -> o.want(0, 0, -1, true));
+        Check.badArgument(x, "want(0, 2, 10001, false)", o -> o.want(0, 2, 10001, false));
+        Check.badState(x, "want of no member", o -> o.want(0, 2, 1, false));
         Check.due("need", x.want(0, 0, 10000, false), 0);
         Check.due("bid", x.want(0, 0, 5, true), 0);
         Check.due("need", x.want(0, 0, 3, false), 10000);
@@ -178,21 +178,21 @@ public final class CirclesTest {
     }
 
     private static void meetRefusals() {
-        SusuRing x = people(3, 100);
+        Counted x = people(3, 100);
         x.circle(5, SusuRing.AGE);
         x.enter(0, 0);
         x.enter(0, 1);
-        Check.outOfIndex(x, "meet(1, false)", () -> x.meet(1, false));
-        Check.outOfIndex(x, "meet(-1, false)", () -> x.meet(-1, false));
-        Check.badState(x, "meet before the start", () -> x.meet(0, false));
+        Check.outOfIndex(x, "meet(1, false)", o -> o.meet(1, false));
+        Check.outOfIndex(x, "meet(-1, false)", o -> o.meet(-1, false));
+        Check.badState(x, "meet before the start", o -> o.meet(0, false));
         x.start(0, 0);
         x.leave(0, 1);
-        Check.badState(x, "meet of one member", () -> x.meet(0, true));
+        Check.badState(x, "meet of one member", o -> o.meet(0, true));
         Check.due("who would have the turn", x.ofCircle(0, 4), 0);
     }
 
     private static void meetByNeed() {
-        SusuRing x = started(4, 100, 5, SusuRing.NEED);
+        Counted x = started(4, 100, 5, SusuRing.NEED);
         x.want(0, 2, 9, false);
         x.want(0, 3, 9, false);
         x.want(0, 1, 10, false);
@@ -208,7 +208,7 @@ public final class CirclesTest {
     }
 
     private static void meetByBid() {
-        SusuRing x = started(4, 100, 7, SusuRing.BID);
+        Counted x = started(4, 100, 7, SusuRing.BID);
         x.want(0, 3, 8, true);
         x.want(0, 1, 8, true);
         x.want(0, 0, 9999, false);
@@ -234,7 +234,7 @@ public final class CirclesTest {
 
     /** A pot of 3 has a half of 1; and one other member gets the whole discount. */
     private static void oddPot() {
-        SusuRing x = started(2, 0, 3, SusuRing.BID);
+        Counted x = started(2, 0, 3, SusuRing.BID);
         x.earn(0, 3);
         x.want(0, 1, 10, true);
         Check.due("meet", x.meet(0, false), 1);
@@ -253,7 +253,7 @@ public final class CirclesTest {
     }
 
     private static void arrearsAndFines() {
-        SusuRing x = started(3, 1000, 109, SusuRing.AGE);
+        Counted x = started(3, 1000, 109, SusuRing.AGE);
         x.earn(2, -1000);
         x.earn(1, -891);
         Check.due("meet moved", x.meet(0, true), 0);
@@ -277,7 +277,7 @@ public final class CirclesTest {
     }
 
     private static void fineOnOneCoin() {
-        SusuRing x = started(2, 100, 10, SusuRing.AGE);
+        Counted x = started(2, 100, 10, SusuRing.AGE);
         x.earn(0, -91);
         x.earn(1, -90);
         x.meet(0, false);
@@ -286,7 +286,7 @@ public final class CirclesTest {
     }
 
     private static void potIsLimited() {
-        SusuRing x = started(2, 0, 10, SusuRing.NEED);
+        Counted x = started(2, 0, 10, SusuRing.NEED);
         x.meet(0, false);
         Check.due("an empty pot", x.of(0, 0), 0);
         x.earn(0, 100);
@@ -299,7 +299,7 @@ public final class CirclesTest {
     }
 
     private static void rounds() {
-        SusuRing x = started(3, 100, 10, SusuRing.LOT);
+        Counted x = started(3, 100, 10, SusuRing.LOT);
         Check.due("meet", x.meet(0, false), 0);
         Check.due("turn of 0", x.member(0, 0, 1), 1);
         Check.due("turn of 1", x.member(0, 1, 1), 0);
@@ -317,21 +317,21 @@ public final class CirclesTest {
     }
 
     private static void leaveRefusals() {
-        SusuRing x = started(3, 100, 100, SusuRing.AGE);
+        Counted x = started(3, 100, 100, SusuRing.AGE);
         x.person(30, 7);
-        Check.outOfIndex(x, "leave(1, 0)", () -> x.leave(1, 0));
-        Check.outOfIndex(x, "leave(0, 4)", () -> x.leave(0, 4));
-        Check.outOfIndex(x, "leave(0, -1)", () -> x.leave(0, -1));
-        Check.badState(x, "leave of no member", () -> x.leave(0, 3));
+        Check.outOfIndex(x, "leave(1, 0)", o -> o.leave(1, 0));
+        Check.outOfIndex(x, "leave(0, 4)", o -> o.leave(0, 4));
+        Check.outOfIndex(x, "leave(0, -1)", o -> o.leave(0, -1));
+        Check.badState(x, "leave of no member", o -> o.leave(0, 3));
         x.earn(2, -1);
         x.meet(0, true);
-        Check.badState(x, "leave behind the turn", () -> x.leave(0, 0));
-        Check.badState(x, "leave with arrears", () -> x.leave(0, 2));
+        Check.badState(x, "leave behind the turn", o -> o.leave(0, 0));
+        Check.badState(x, "leave with arrears", o -> o.leave(0, 2));
         Check.due("leave(0, 1)", x.leave(0, 1), 0);
     }
 
     private static void leavePaysBack() {
-        SusuRing x = started(4, 0, 10, SusuRing.AGE);
+        Counted x = started(4, 0, 10, SusuRing.AGE);
         x.meet(0, true);
         for (int p = 0; p < 4; p++) {
             x.earn(p, 100);
@@ -347,13 +347,13 @@ public final class CirclesTest {
         Check.due("members", x.ofCircle(0, 1), 3);
         Check.due("the place of 3", x.member(0, 3, 3), 2);
         Check.due("the next one in order", x.ofCircle(0, 4), 3);
-        Check.badState(x, "leave again", () -> x.leave(0, 2));
+        Check.badState(x, "leave again", o -> o.leave(0, 2));
         Check.due("coins()", x.coins(), 0);
         beforeTheStart();
     }
 
     private static void beforeTheStart() {
-        SusuRing x = people(2, 100);
+        Counted x = people(2, 100);
         x.circle(10, SusuRing.LOT);
         x.enter(0, 0);
         Check.due("leave before the start", x.leave(0, 0), 0);
@@ -363,7 +363,7 @@ public final class CirclesTest {
     }
 
     private static void leaveEndsRound() {
-        SusuRing x = started(3, 100, 10, SusuRing.AGE);
+        Counted x = started(3, 100, 10, SusuRing.AGE);
         x.meet(0, false);
         x.meet(0, false);
         Check.due("leave(0, 2) from an empty box", x.leave(0, 2), 0);
@@ -381,15 +381,15 @@ public final class CirclesTest {
     }
 
     private static void lastOneLeaves(int way) {
-        SusuRing x = started(2, 100, 10, way);
+        Counted x = started(2, 100, 10, way);
         x.leave(0, 0);
         Check.due("rounds", x.ofCircle(0, 3), 0);
         Check.due("leave of the last", x.leave(0, 1), 0);
         Check.due("no round ends without members", x.ofCircle(0, 3), 0);
         Check.due("members", x.ofCircle(0, 1), 0);
         Check.due("nobody has the turn", x.ofCircle(0, 4), SusuRing.NONE);
-        Check.badState(x, "enter a started circle", () -> x.enter(0, 0));
-        Check.badState(x, "start again", () -> x.start(0, 0));
-        Check.badState(x, "meet without members", () -> x.meet(0, false));
+        Check.badState(x, "enter a started circle", o -> o.enter(0, 0));
+        Check.badState(x, "start again", o -> o.start(0, 0));
+        Check.badState(x, "meet without members", o -> o.meet(0, false));
     }
 }

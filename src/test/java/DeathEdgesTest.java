@@ -47,14 +47,14 @@ public final class DeathEdgesTest {
             x.die(0, 2);
             x.die(1, 2);
         }), x -> x.die(0, 1));
-        SusuRing x = Village.people(3, 5);
+        Counted x = Village.people(3, 5);
         Edge.due("die(0, 1)", x.die(0, 1), 0);
         Edge.due("the heir may die, too", x.die(1, 2), 0);
         Edge.due("all came to the last", x.of(2, 0), 15);
     }
 
-    private static SusuRing withShares(int one, int other) {
-        SusuRing x = Village.people(2, 1000);
+    private static Counted withShares(int one, int other) {
+        Counted x = Village.people(2, 1000);
         if (one > 0) {
             x.buy(0, one);
         }
@@ -65,7 +65,7 @@ public final class DeathEdgesTest {
     }
 
     private static int inherited(int one, int other) {
-        SusuRing x = withShares(one, other);
+        Counted x = withShares(one, other);
         x.die(0, 1);
         Edge.due("the dead has none", x.of(0, 1), 0);
         return x.of(1, 1);
@@ -94,7 +94,7 @@ public final class DeathEdgesTest {
     }
 
     private static void purses() {
-        SusuRing x = Village.people(3, 0);
+        Counted x = Village.people(3, 0);
         x.earn(0, 7);
         x.die(0, 1);
         Edge.due("the heir's", x.of(1, 0), 7);
@@ -106,7 +106,7 @@ public final class DeathEdgesTest {
     }
 
     private static void loanToNone() {
-        SusuRing x = Village.holders(4, 10, 0);
+        Counted x = Village.holders(4, 10, 0);
         x.person(30, Village.nameOf(4));
         x.borrow(0, 50, 1, 2);
         x.die(0, 4);
@@ -120,8 +120,8 @@ public final class DeathEdgesTest {
         Edge.due("the heir of no loan borrows", heirOfLoan(0).borrow(3, 1, 1, 2), 1);
     }
 
-    private static SusuRing heirOfLoan(int amount) {
-        SusuRing x = Village.holders(4, 10, 0);
+    private static Counted heirOfLoan(int amount) {
+        Counted x = Village.holders(4, 10, 0);
         if (amount > 0) {
             x.borrow(0, amount, 1, 2);
         }
@@ -130,7 +130,7 @@ public final class DeathEdgesTest {
     }
 
     private static void loanToLoan() {
-        SusuRing x = Village.holders(4, 10, 0);
+        Counted x = Village.holders(4, 10, 0);
         x.borrow(0, 50, 1, 2);
         x.borrow(3, 49, 1, 2);
         x.die(0, 3);
@@ -140,7 +140,7 @@ public final class DeathEdgesTest {
         Edge.due("one loan is paid back", x.of(3, 3), 0);
         x.repay(3, 1);
         Edge.due("one loan is paid back", x.of(3, 3), 1);
-        SusuRing y = Village.holders(4, 10, 0);
+        Counted y = Village.holders(4, 10, 0);
         y.borrow(3, 49, 1, 2);
         y.die(0, 3);
         Edge.due("no debt is added", y.of(3, 2), 49);
@@ -149,7 +149,7 @@ public final class DeathEdgesTest {
 
     /** The 500 of a house bind who borrows, not who inherits. */
     private static void debtsAboveTheHouseLimit() {
-        SusuRing x = Village.holders(4, 50, 0);
+        Counted x = Village.holders(4, 50, 0);
         Village.payBackLoans(x, 9, 0, 1, 2);
         Village.payBackLoans(x, 9, 3, 1, 2);
         x.borrow(0, 500, 1, 2);
@@ -160,8 +160,8 @@ public final class DeathEdgesTest {
     }
 
     /** 0 owes 20, vouched for by 1 and 2; 3 owes 40, vouched for by 4 and 5; each for so many months. */
-    private static SusuRing twoLoans(int monthsOfDead, int monthsOfHeir) {
-        SusuRing x = Village.holders(6, 10, 200);
+    private static Counted twoLoans(int monthsOfDead, int monthsOfHeir) {
+        Counted x = Village.holders(6, 10, 200);
         if (monthsOfDead > monthsOfHeir) {
             x.borrow(0, 20, 1, 2);
             Village.months(x, monthsOfDead - monthsOfHeir);
@@ -177,7 +177,7 @@ public final class DeathEdgesTest {
     }
 
     private static void ageAndVouchersOfHeir() {
-        SusuRing x = twoLoans(6, 5);
+        Counted x = twoLoans(6, 5);
         x.die(0, 3);
         int debt = Village.debtAfter(20, 6) + Village.debtAfter(40, 5);
         Edge.due("both debts", x.of(3, 2), debt);
@@ -190,14 +190,14 @@ public final class DeathEdgesTest {
         Edge.due("the heir's second pays", x.of(5, 0), 200 - (debt - debt / 2));
         Edge.due("the dead's first does not", x.of(1, 0), 200);
         Edge.due("the dead's second does not", x.of(2, 0), 200);
-        SusuRing y = twoLoans(0, 6);
+        Counted y = twoLoans(0, 6);
         y.die(0, 3);
         Edge.due("the heir's loan is the older one", y.month(false), 1);
         Edge.due("and took the dead's with it", y.of(3, 2), 0);
     }
 
     private static void ageAndVouchersOfDead() {
-        SusuRing x = Village.holders(4, 10, 200);
+        Counted x = Village.holders(4, 10, 200);
         x.borrow(0, 50, 1, 2);
         Village.months(x, 5);
         x.die(0, 3);
@@ -207,7 +207,7 @@ public final class DeathEdgesTest {
         Edge.due("the first pays", x.of(1, 0), 200 - debt / 2);
         Edge.due("the second pays", x.of(2, 0), 200 - (debt - debt / 2));
         Edge.due("the heir pays nothing", x.of(3, 0), 450);
-        SusuRing y = Village.holders(4, 10, 200);
+        Counted y = Village.holders(4, 10, 200);
         y.borrow(3, 50, 1, 2);
         Village.months(y, 6);
         y.repay(3, 10000);
@@ -220,7 +220,7 @@ public final class DeathEdgesTest {
     }
 
     private static void inheritedByVoucher() {
-        SusuRing x = Village.holders(3, 10, 200);
+        Counted x = Village.holders(3, 10, 200);
         x.borrow(0, 50, 1, 2);
         x.die(0, 2);
         Village.months(x, 7);
@@ -231,8 +231,8 @@ public final class DeathEdgesTest {
     }
 
     /** 0 paid 9 of 10 and had the turn: so there are arrears of 2, and a need and a bid. */
-    private static SusuRing placeOfDead(int members) {
-        SusuRing x = Village.people(4, 0);
+    private static Counted placeOfDead(int members) {
+        Counted x = Village.people(4, 0);
         x.circle(10, SusuRing.NEED);
         Village.enterAll(x, 0, members);
         x.earn(0, 9);
@@ -244,7 +244,7 @@ public final class DeathEdgesTest {
     }
 
     private static void place() {
-        SusuRing x = placeOfDead(3);
+        Counted x = placeOfDead(3);
         Edge.due("the dead's arrears", x.member(0, 0, 0), 2);
         Edge.due("die(0, 3)", x.die(0, 3), 1);
         Edge.due("the arrears", x.member(0, 3, 0), 2);
@@ -257,7 +257,7 @@ public final class DeathEdgesTest {
         for (int what = 0; what <= 3; what++) {
             Edge.due("the dead has no place", x.member(0, 0, what), SusuRing.NONE);
         }
-        SusuRing y = Edge.with(Village.circle(2, 0, 10, SusuRing.AGE), z -> z.person(30, Village.nameOf(2)));
+        Counted y = Edge.with(Village.circle(2, 0, 10, SusuRing.AGE), z -> z.person(30, Village.nameOf(2)));
         Edge.due("before the start", y.die(0, 2), 1);
         Edge.due("the place", y.member(0, 2, 3), 0);
         Edge.due("the heir is a member now", y.start(0, 0), 2);
@@ -265,7 +265,7 @@ public final class DeathEdgesTest {
     }
 
     private static void placeInFullCircle() {
-        SusuRing x = Village.people(11, 0);
+        Counted x = Village.people(11, 0);
         x.circle(10, SusuRing.NEED);
         Village.enterAll(x, 0, 10);
         Edge.due("die(9, 10)", x.die(9, 10), 1);
@@ -274,7 +274,7 @@ public final class DeathEdgesTest {
     }
 
     private static void placeInOrder() {
-        SusuRing x = new SusuRing();
+        Counted x = new Counted();
         int[] ages = {120, 60, 30, 1};
         for (int p = 0; p < ages.length; p++) {
             x.person(ages[p], Village.nameOf(p));
@@ -287,7 +287,7 @@ public final class DeathEdgesTest {
         Edge.due("the second", x.meet(0, false), 1);
         Edge.due("the third", x.meet(0, false), 2);
         Edge.due("the first again", x.meet(0, false), 3);
-        SusuRing y = Village.circle(3, 0, 10, SusuRing.LOT);
+        Counted y = Village.circle(3, 0, 10, SusuRing.LOT);
         y.start(0, 2);
         Edge.due("die(0, 1)", y.die(0, 1), 0);
         Edge.due("by lot 2 is first", y.meet(0, false), 2);
@@ -295,7 +295,7 @@ public final class DeathEdgesTest {
     }
 
     private static void memberAlready() {
-        SusuRing x = placeOfDead(3);
+        Counted x = placeOfDead(3);
         Edge.due("the heir's arrears", x.member(0, 2, 0), 11);
         Edge.due("die(0, 2)", x.die(0, 2), 0);
         Edge.due("both arrears", x.member(0, 2, 0), 13);
@@ -304,7 +304,7 @@ public final class DeathEdgesTest {
         Edge.due("the heir's need", x.want(0, 2, 0, false), 0);
         Edge.due("the heir's bid", x.want(0, 2, 0, true), 0);
         Edge.due("another's arrears", x.member(0, 1, 0), 11);
-        SusuRing y = Village.started(3, 100, 10, SusuRing.NEED);
+        Counted y = Village.started(3, 100, 10, SusuRing.NEED);
         y.meet(0, false);
         y.die(0, 1);
         Edge.due("no arrears are added", y.member(0, 1, 0), 0);
@@ -313,8 +313,8 @@ public final class DeathEdgesTest {
             z -> z.leave(0, 2));
     }
 
-    private static SusuRing heirOfArrears() {
-        SusuRing x = Village.people(3, 100);
+    private static Counted heirOfArrears() {
+        Counted x = Village.people(3, 100);
         x.circle(10, SusuRing.NEED);
         Village.enterAll(x, 0, 3);
         x.earn(1, -91);
@@ -325,7 +325,7 @@ public final class DeathEdgesTest {
     }
 
     private static void placeGone() {
-        SusuRing x = Village.started(10, 100, 10, SusuRing.AGE);
+        Counted x = Village.started(10, 100, 10, SusuRing.AGE);
         Edge.due("die(3, 9)", x.die(3, 9), 0);
         Edge.due("9 members", x.ofCircle(0, 1), 9);
         Edge.due("the one before", x.member(0, 2, 3), 2);
@@ -333,18 +333,18 @@ public final class DeathEdgesTest {
         Edge.due("the heir moves up", x.member(0, 9, 3), 8);
         Edge.due("the heir of a later place stays", x.die(8, 0), 0);
         Edge.due("at the own place", x.member(0, 0, 3), 0);
-        SusuRing y = Village.circle(10, 0, 10, SusuRing.AGE);
+        Counted y = Village.circle(10, 0, 10, SusuRing.AGE);
         y.person(30, Village.nameOf(10));
         Edge.due("before the start", y.die(0, 1), 0);
         Edge.due("there is a place again", y.enter(0, 10), 10);
-        SusuRing z = Village.started(2, 100, 10, SusuRing.BID);
+        Counted z = Village.started(2, 100, 10, SusuRing.BID);
         Edge.due("one member is left", z.die(0, 1), 0);
         Edge.due("one member", z.ofCircle(0, 1), 1);
         Edge.due("who would have the turn", z.ofCircle(0, 4), 1);
     }
 
-    private static SusuRing inCircles(int of0, int of1) {
-        SusuRing x = Village.people(2, 0);
+    private static Counted inCircles(int of0, int of1) {
+        Counted x = Village.people(2, 0);
         for (int c = 0; c < 4; c++) {
             x.circle(10, c);
             if (c < of0) {
@@ -368,7 +368,7 @@ public final class DeathEdgesTest {
     }
 
     private static void newRound() {
-        SusuRing x = Village.started(3, 100, 10, SusuRing.AGE);
+        Counted x = Village.started(3, 100, 10, SusuRing.AGE);
         x.meet(0, false);
         x.meet(0, false);
         Edge.due("die(2, 0)", x.die(2, 0), 0);
@@ -376,16 +376,16 @@ public final class DeathEdgesTest {
         Edge.due("meetings", x.ofCircle(0, 2), 2);
         Edge.due("no turn in this round", x.member(0, 0, 1) + x.member(0, 1, 1), 0);
         Edge.due("nothing paid in", x.member(0, 0, 2) + x.member(0, 1, 2), 0);
-        SusuRing y = Village.started(3, 100, 10, SusuRing.AGE);
+        Counted y = Village.started(3, 100, 10, SusuRing.AGE);
         y.meet(0, false);
         y.die(2, 0);
         Edge.due("one of those left had no turn", y.ofCircle(0, 3), 0);
         Edge.due("the turn stays", y.member(0, 0, 1), 1);
-        SusuRing z = Village.started(2, 100, 10, SusuRing.NEED);
+        Counted z = Village.started(2, 100, 10, SusuRing.NEED);
         z.meet(0, false);
         z.die(1, 0);
         Edge.due("the only one left had a turn", z.ofCircle(0, 3), 1);
-        SusuRing w = Village.started(2, 100, 10, SusuRing.NEED);
+        Counted w = Village.started(2, 100, 10, SusuRing.NEED);
         w.meet(0, false);
         w.die(0, 1);
         Edge.due("the only one left had no turn", w.ofCircle(0, 3), 0);
@@ -393,7 +393,7 @@ public final class DeathEdgesTest {
     }
 
     private static void newRoundInOneOfTwo() {
-        SusuRing x = Village.started(3, 100, 10, SusuRing.AGE);
+        Counted x = Village.started(3, 100, 10, SusuRing.AGE);
         x.person(30, Village.nameOf(3));
         x.circle(10, SusuRing.AGE);
         x.enter(1, 2);
@@ -409,7 +409,7 @@ public final class DeathEdgesTest {
     }
 
     private static void paidBackStays() {
-        SusuRing x = Village.holders(4, 10, 0);
+        Counted x = Village.holders(4, 10, 0);
         Village.payBackLoans(x, 2, 0, 1, 2);
         Village.payBackLoans(x, 1, 3, 1, 2);
         x.die(0, 3);
@@ -420,13 +420,13 @@ public final class DeathEdgesTest {
             Village.payBackLoans(y, 2, 0, 1, 2);
             y.die(0, 3);
         }), y -> y.borrow(3, 51, 1, 2));
-        SusuRing y = Village.holders(4, 10, 0);
+        Counted y = Village.holders(4, 10, 0);
         Village.payBackLoans(y, 1, 0, 1, 2);
         y.borrow(0, 1, 1, 2);
         y.die(0, 3);
         Village.months(y, 7);
         Edge.due("a default of the heir leaves the dead's", y.of(0, 3), 1);
-        SusuRing z = Village.holders(4, 10, 0);
+        Counted z = Village.holders(4, 10, 0);
         Village.payBackLoans(z, 1, 3, 1, 2);
         z.borrow(0, 1, 1, 2);
         z.die(0, 3);
@@ -435,20 +435,20 @@ public final class DeathEdgesTest {
     }
 
     private static void vouchingStays() {
-        SusuRing x = Village.holders(4, 10, 200);
+        Counted x = Village.holders(4, 10, 200);
         x.borrow(0, 50, 1, 2);
         x.die(1, 3);
         Village.months(x, 7);
         int debt = Village.debtAfter(50, 7);
         Edge.due("the heir of the first pays nothing", x.of(3, 0), 400);
         Edge.due("the second pays the rest", x.of(2, 0), 200 - (debt - debt / 2));
-        SusuRing y = Village.holders(4, 10, 200);
+        Counted y = Village.holders(4, 10, 200);
         y.borrow(0, 50, 1, 2);
         y.die(2, 3);
         Village.months(y, 7);
         Edge.due("the heir of the second pays nothing", y.of(3, 0), 400);
         Edge.due("the first pays half", y.of(1, 0), 200 - debt / 2);
-        SusuRing z = Village.holders(4, 10, 200);
+        Counted z = Village.holders(4, 10, 200);
         z.borrow(0, 50, 1, 2);
         z.die(1, 2);
         Village.months(z, 7);
@@ -456,7 +456,7 @@ public final class DeathEdgesTest {
     }
 
     private static void truthStays() {
-        SusuRing x = withShares(10, 0);
+        Counted x = withShares(10, 0);
         x.die(0, 1);
         Edge.due("of the dead", x.of(0, 4), 100);
         Edge.due("of the heir", x.of(1, 4), 0);

@@ -35,7 +35,7 @@ public final class FundEdgesTest {
     }
 
     private static void emptyFund() {
-        Edge.due("cash()", new SusuRing().cash(), 0);
+        Edge.due("cash()", new Counted().cash(), 0);
         Edge.due("cash() with people and circles", Village.started(10, 100, 10, 0).cash(), 0);
         Edge.due("one share", Village.holders(1, 1, 0).cash(), 10);
         Edge.due("16 with 100 shares", Village.holders(16, 100, 0).cash(), 16000);
@@ -62,7 +62,7 @@ public final class FundEdgesTest {
         Edge.state("100 to 1", () -> Village.holders(1, 1, 1000), x -> x.buy(0, 100));
         Edge.state("100 to 100", () -> Village.holders(1, 100, 1000), x -> x.buy(0, 100));
         Edge.due("100 of another", Village.holders(2, 100, 1000).of(1, 1), 100);
-        Edge.due("100 behind a feast", Edge.with(Village.holders(1, 100, 0), SusuRing::feast).buy(0, 100), 100);
+        Edge.due("100 behind a feast", Edge.with(Village.holders(1, 100, 0), Counted::feast).buy(0, 100), 100);
         Edge.state("1 to 100 that were inherited", () -> Edge.with(Village.holders(2, 50, 50), x -> x.die(0, 1)),
             x -> x.buy(1, 1));
     }
@@ -73,7 +73,7 @@ public final class FundEdgesTest {
         Edge.state("0 for one", () -> Village.people(1, 0), x -> x.buy(0, 1));
         Edge.due("1000 for 100", Village.people(1, 1000).buy(0, 100), 100);
         Edge.state("999 for 100", () -> Village.people(1, 999), x -> x.buy(0, 100));
-        SusuRing x = Edge.with(Village.people(2, 31), y -> y.buy(0, 3));
+        Counted x = Edge.with(Village.people(2, 31), y -> y.buy(0, 3));
         Edge.due("the purse", x.of(0, 0), 1);
         Edge.due("the fund", x.cash(), 30);
         Edge.due("the truth", x.of(0, 4), 30);
@@ -89,7 +89,7 @@ public final class FundEdgesTest {
         Edge.state("the dead", () -> Edge.with(Village.people(2, 50), x -> x.die(0, 1)), x -> x.buy(0, 1));
     }
 
-    private static SusuRing three() {
+    private static Counted three() {
         return Village.holders(3, 50, 0);
     }
 
@@ -120,7 +120,7 @@ public final class FundEdgesTest {
         Edge.state("borrow(0, 1000, 1, 2)", FundEdgesTest::three, x -> x.borrow(0, 1000, 1, 2));
     }
 
-    private static SusuRing fourOneDead() {
+    private static Counted fourOneDead() {
         return Edge.with(Village.holders(4, 10, 0), x -> x.die(3, 0));
     }
 
@@ -132,8 +132,8 @@ public final class FundEdgesTest {
     }
 
     /** Four people, all with a share but 3. */
-    private static SusuRing oneWithout() {
-        SusuRing x = Village.people(4, 10);
+    private static Counted oneWithout() {
+        Counted x = Village.people(4, 10);
         for (int p = 0; p < 3; p++) {
             x.buy(p, 1);
         }
@@ -176,12 +176,12 @@ public final class FundEdgesTest {
     }
 
     private static void whoVouches() {
-        SusuRing x = three();
+        Counted x = three();
         Edge.due("both vouch", x.borrow(0, 5, 1, 2), 5);
         Edge.due("who vouched borrows, and who borrowed vouches", x.borrow(1, 5, 0, 2), 5);
         Edge.due("each vouches for two", x.borrow(2, 5, 0, 1), 5);
         Edge.due("the debts", x.of(0, 2) + x.of(1, 2) + x.of(2, 2), 15);
-        SusuRing y = new SusuRing();
+        Counted y = new Counted();
         for (int p = 0; p < 3; p++) {
             y.person(30, 5);
             y.earn(p, 10);
@@ -190,7 +190,7 @@ public final class FundEdgesTest {
         Edge.due("both of the own house", y.borrow(0, 5, 1, 2), 5);
     }
 
-    private static SusuRing atStep(int paidBack) {
+    private static Counted atStep(int paidBack) {
         return Edge.with(Village.holders(3, 100, 0), x -> Village.payBackLoans(x, paidBack, 0, 1, 2));
     }
 
@@ -209,7 +209,7 @@ public final class FundEdgesTest {
 
     private static void stepsOfOthers() {
         Edge.state("another's do not count", () -> atStep(3), x -> x.borrow(1, 51, 0, 2));
-        SusuRing x = three();
+        Counted x = three();
         x.borrow(0, 50, 1, 2);
         x.repay(0, 25);
         Edge.due("a part does not count", x.of(0, 3), 0);
@@ -220,7 +220,7 @@ public final class FundEdgesTest {
         Edge.due("not for who vouched", x.of(1, 3) + x.of(2, 3), 0);
     }
 
-    private static SusuRing afterDefault() {
+    private static Counted afterDefault() {
         return Edge.with(atStep(3), x -> {
             x.borrow(0, 1, 1, 2);
             Village.months(x, 7);
@@ -235,7 +235,7 @@ public final class FundEdgesTest {
             .borrow(0, 100, 1, 2), 101);
         Edge.state("101 behind one more", () -> Edge.with(afterDefault(),
             x -> Village.payBackLoans(x, 1, 0, 1, 2)), x -> x.borrow(0, 101, 1, 2));
-        SusuRing x = Village.holders(4, 100, 0);
+        Counted x = Village.holders(4, 100, 0);
         Village.payBackLoans(x, 2, 1, 2, 3);
         x.borrow(0, 50, 1, 2);
         Village.months(x, 7);
@@ -244,8 +244,8 @@ public final class FundEdgesTest {
     }
 
     /** 0 and 1 are of one house, 4 is of the house of 1 alone; each may borrow 500. */
-    private static SusuRing house(int debtOf1) {
-        SusuRing x = new SusuRing();
+    private static Counted house(int debtOf1) {
+        Counted x = new Counted();
         int[] names = {0, 1, 55555, 66666, 11};
         for (int p = 0; p < names.length; p++) {
             x.person(30, names[p]);
@@ -274,7 +274,7 @@ public final class FundEdgesTest {
     }
 
     private static void wholeHouse() {
-        SusuRing x = house(200);
+        Counted x = house(200);
         Edge.due("4 and 1", x.borrow(4, 300, 2, 3), 800);
         Edge.due("0 and 1, without 4", x.borrow(0, 300, 2, 3), 800);
         Edge.state("1 would be with both", () -> Edge.with(house(0), y -> {
@@ -291,15 +291,15 @@ public final class FundEdgesTest {
     }
 
     /** The names 1 and 11 differ in one figure, and the debt of 500 stays with the name 1. */
-    private static SusuRing heirInHouse() {
-        SusuRing x = house(0);
+    private static Counted heirInHouse() {
+        Counted x = house(0);
         x.borrow(0, 500, 2, 3);
         x.die(0, 1);
         return x;
     }
 
     private static void grownDebts() {
-        SusuRing x = house(400);
+        Counted x = house(400);
         x.month(false);
         Edge.due("400 grew", x.of(1, 2), 420);
         Edge.due("80 and 420", x.borrow(0, 80, 2, 3), 580);
@@ -334,8 +334,8 @@ public final class FundEdgesTest {
             x -> x.borrow(0, 30, 1, 2)), x -> x.borrow(1, 1001, 0, 2));
     }
 
-    private static SusuRing owing(int amount, int purse) {
-        SusuRing x = three();
+    private static Counted owing(int amount, int purse) {
+        Counted x = three();
         x.borrow(0, amount, 1, 2);
         x.earn(0, purse - amount);
         return x;
@@ -344,7 +344,7 @@ public final class FundEdgesTest {
     private static void repayNobody() {
         Edge.indexOutside("repay(person, 1) of 3", () -> owing(5, 5), 2, (x, p) -> x.repay(p, 1));
         Edge.indexOutside("repay(person, 1) of 16", () -> Village.people(16, 5), 15, (x, p) -> x.repay(p, 1));
-        SusuRing x = Village.holders(16, 1, 0);
+        Counted x = Village.holders(16, 1, 0);
         x.borrow(15, 5, 0, 1);
         Edge.due("repay(15, 5)", x.repay(15, 5), 0);
     }
@@ -358,7 +358,7 @@ public final class FundEdgesTest {
     private static void repayWhatIsOwed() {
         int[] amounts = {49, 50, 51, 10000};
         for (int amount : amounts) {
-            SusuRing x = owing(50, 60);
+            Counted x = owing(50, 60);
             int paid = Math.min(50, amount);
             Edge.due("repay(0, " + amount + ")", x.repay(0, amount), 50 - paid);
             Edge.due("the purse", x.of(0, 0), 60 - paid);
@@ -368,7 +368,7 @@ public final class FundEdgesTest {
             Edge.due("the fund", x.cash(), 1450 + paid);
         }
         Edge.due("the only coin", owing(1, 2).repay(0, 1), 0);
-        SusuRing z = owing(50, 53);
+        Counted z = owing(50, 53);
         z.month(false);
         Edge.due("what it grew is owed, too", z.repay(0, 50), 3);
         Edge.due("no loan is paid back yet", z.of(0, 3), 0);

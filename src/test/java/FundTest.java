@@ -21,8 +21,8 @@ public final class FundTest {
     }
 
     /** People of houses of their own, each with so much left behind buying the shares. */
-    private static SusuRing holders(int count, int shares, int left) {
-        SusuRing x = new SusuRing();
+    private static Counted holders(int count, int shares, int left) {
+        Counted x = new Counted();
         for (int p = 0; p < count; p++) {
             x.person(30, p * 11111);
             x.earn(p, shares * 10 + left);
@@ -32,55 +32,55 @@ public final class FundTest {
     }
 
     private static void buy() {
-        SusuRing x = new SusuRing();
+        Counted x = new Counted();
         x.person(20, 1);
         x.person(20, 2);
         x.earn(0, 1009);
-        Check.outOfIndex(x, "buy(2, 1)", () -> x.buy(2, 1));
-        Check.outOfIndex(x, "buy(-1, 0)", () -> x.buy(-1, 0));
-        Check.badArgument(x, "buy(0, 0)", () -> x.buy(0, 0));
-        Check.badArgument(x, "buy(0, 101)", () -> x.buy(0, 101));
-        Check.badArgument(x, "buy(0, -1)", () -> x.buy(0, -1));
-        Check.badState(x, "buy(1, 1) without coins", () -> x.buy(1, 1));
+        Check.outOfIndex(x, "buy(2, 1)", o -> o.buy(2, 1));
+        Check.outOfIndex(x, "buy(-1, 0)", o -> o.buy(-1, 0));
+        Check.badArgument(x, "buy(0, 0)", o -> o.buy(0, 0));
+        Check.badArgument(x, "buy(0, 101)", o -> o.buy(0, 101));
+        Check.badArgument(x, "buy(0, -1)", o -> o.buy(0, -1));
+        Check.badState(x, "buy(1, 1) without coins", o -> o.buy(1, 1));
         Check.due("buy(0, 99)", x.buy(0, 99), 99);
         Check.due("the purse", x.of(0, 0), 19);
         Check.due("cash()", x.cash(), 990);
         Check.due("the truth", x.of(0, 4), 990);
-        Check.badState(x, "buy(0, 2)", () -> x.buy(0, 2));
+        Check.badState(x, "buy(0, 2)", o -> o.buy(0, 2));
         Check.due("buy(0, 1)", x.buy(0, 1), 100);
         x.earn(0, 100);
-        Check.badState(x, "a share too many", () -> x.buy(0, 1));
+        Check.badState(x, "a share too many", o -> o.buy(0, 1));
         Check.due("the shares", x.of(0, 1), 100);
         x.earn(1, 9);
-        Check.badState(x, "a coin too few", () -> x.buy(1, 1));
+        Check.badState(x, "a coin too few", o -> o.buy(1, 1));
         x.earn(1, 1);
         Check.due("buy(1, 1)", x.buy(1, 1), 1);
         Check.due("the purse", x.of(1, 0), 0);
         Check.due("coins()", x.coins(), 0);
         x.earn(1, 10);
-        SusuRing y = new SusuRing();
+        Counted y = new Counted();
         y.person(20, 1);
         y.person(20, 2);
         y.die(0, 1);
-        Check.badState(y, "the dead", () -> y.buy(0, 1));
-        Check.badArgument(y, "the dead, and no share", () -> y.buy(0, 0));
+        Check.badState(y, "the dead", o -> o.buy(0, 1));
+        Check.badArgument(y, "the dead, and no share", o -> o.buy(0, 0));
     }
 
     private static void borrowRefusals() {
-        SusuRing x = holders(3, 50, 0);
-        Check.outOfIndex(x, "borrow(3, ..)", () -> x.borrow(3, 50, 1, 2));
-        Check.outOfIndex(x, "borrow(0, 50, -1, 2)", () -> x.borrow(0, 50, -1, 2));
-        Check.outOfIndex(x, "borrow(0, 50, 1, 3)", () -> x.borrow(0, 50, 1, 3));
-        Check.outOfIndex(x, "borrow(0, 0, 0, 3)", () -> x.borrow(0, 0, 0, 3));
-        Check.badArgument(x, "borrow(0, 50, 0, 2)", () -> x.borrow(0, 50, 0, 2));
-        Check.badArgument(x, "borrow(0, 50, 2, 0)", () -> x.borrow(0, 50, 2, 0));
-        Check.badArgument(x, "borrow(0, 50, 2, 2)", () -> x.borrow(0, 50, 2, 2));
-        Check.badArgument(x, "borrow(0, 0, 1, 2)", () -> x.borrow(0, 0, 1, 2));
-        Check.badArgument(x, "borrow(0, 1001, 1, 2)", () -> x.borrow(0, 1001, 1, 2));
-        Check.badState(x, "borrow(0, 1000, 1, 2)", () -> x.borrow(0, 1000, 1, 2));
+        Counted x = holders(3, 50, 0);
+        Check.outOfIndex(x, "borrow(3, ..)", o -> o.borrow(3, 50, 1, 2));
+        Check.outOfIndex(x, "borrow(0, 50, -1, 2)", o -> o.borrow(0, 50, -1, 2));
+        Check.outOfIndex(x, "borrow(0, 50, 1, 3)", o -> o.borrow(0, 50, 1, 3));
+        Check.outOfIndex(x, "borrow(0, 0, 0, 3)", o -> o.borrow(0, 0, 0, 3));
+        Check.badArgument(x, "borrow(0, 50, 0, 2)", o -> o.borrow(0, 50, 0, 2));
+        Check.badArgument(x, "borrow(0, 50, 2, 0)", o -> o.borrow(0, 50, 2, 0));
+        Check.badArgument(x, "borrow(0, 50, 2, 2)", o -> o.borrow(0, 50, 2, 2));
+        Check.badArgument(x, "borrow(0, 0, 1, 2)", o -> o.borrow(0, 0, 1, 2));
+        Check.badArgument(x, "borrow(0, 1001, 1, 2)", o -> o.borrow(0, 1001, 1, 2));
+        Check.badState(x, "borrow(0, 1000, 1, 2)", o -> o.borrow(0, 1000, 1, 2));
         Check.due("borrow(0, 1, 1, 2)", x.borrow(0, 1, 1, 2), 1);
-        Check.badState(x, "a second loan", () -> x.borrow(0, 1, 1, 2));
-        Check.badArgument(x, "a second loan of 1001", () -> x.borrow(0, 1001, 1, 2));
+        Check.badState(x, "a second loan", o -> o.borrow(0, 1, 1, 2));
+        Check.badArgument(x, "a second loan of 1001", o -> o.borrow(0, 1001, 1, 2));
         Check.due("who has a loan vouches", x.borrow(1, 50, 0, 2), 50);
         Check.due("the debt", x.of(1, 2), 50);
         Check.due("the truth", x.of(1, 4), 450);
@@ -89,42 +89,42 @@ public final class FundTest {
     }
 
     private static void borrowSteps() {
-        SusuRing x = holders(3, 100, 0);
+        Counted x = holders(3, 100, 0);
         for (int step = 1; step <= 10; step++) {
             int most = 50 * step;
-            Check.badState(x, "above step " + step, () -> x.borrow(0, most + 1, 1, 2));
+            Check.badState(x, "above step " + step, o -> o.borrow(0, most + 1, 1, 2));
             Check.due("step " + step, x.borrow(0, most, 1, 2), most);
             Check.due("paid back", x.repay(0, most), 0);
             Check.due("loans paid back", x.of(0, 3), step);
         }
-        Check.badState(x, "above what a house may owe", () -> x.borrow(0, 501, 1, 2));
+        Check.badState(x, "above what a house may owe", o -> o.borrow(0, 501, 1, 2));
         Check.due("what a house may owe", x.borrow(0, 500, 1, 2), 500);
-        Check.badState(x, "another's steps", () -> x.borrow(1, 51, 0, 2));
+        Check.badState(x, "another's steps", o -> o.borrow(1, 51, 0, 2));
     }
 
     private static void borrowNeedsShares() {
-        SusuRing x = holders(3, 1, 0);
+        Counted x = holders(3, 1, 0);
         x.person(30, 77777);
         x.person(30, 88888);
         x.die(4, 0);
-        Check.badState(x, "no share", () -> x.borrow(3, 1, 0, 1));
-        Check.badState(x, "the first has no share", () -> x.borrow(0, 1, 3, 1));
-        Check.badState(x, "the second has no share", () -> x.borrow(0, 1, 1, 3));
-        Check.badState(x, "the dead borrows", () -> x.borrow(4, 1, 0, 1));
-        Check.badState(x, "the dead vouches", () -> x.borrow(0, 1, 1, 4));
+        Check.badState(x, "no share", o -> o.borrow(3, 1, 0, 1));
+        Check.badState(x, "the first has no share", o -> o.borrow(0, 1, 3, 1));
+        Check.badState(x, "the second has no share", o -> o.borrow(0, 1, 1, 3));
+        Check.badState(x, "the dead borrows", o -> o.borrow(4, 1, 0, 1));
+        Check.badState(x, "the dead vouches", o -> o.borrow(0, 1, 1, 4));
         Check.due("one share is enough", x.borrow(0, 1, 1, 2), 1);
     }
 
     private static void borrowFromFund() {
-        SusuRing x = holders(3, 1, 0);
-        Check.badState(x, "more than the fund has", () -> x.borrow(0, 31, 1, 2));
+        Counted x = holders(3, 1, 0);
+        Check.badState(x, "more than the fund has", o -> o.borrow(0, 31, 1, 2));
         Check.due("all that the fund has", x.borrow(0, 30, 1, 2), 30);
         Check.due("cash()", x.cash(), 0);
-        Check.badState(x, "an empty fund", () -> x.borrow(1, 1, 0, 2));
+        Check.badState(x, "an empty fund", o -> o.borrow(1, 1, 0, 2));
     }
 
     private static void borrowInHouse() {
-        SusuRing x = new SusuRing();
+        Counted x = new Counted();
         int[] names = {0, 1, 10, 99999, 88888};
         for (int p = 0; p < names.length; p++) {
             x.person(30, names[p]);
@@ -138,32 +138,32 @@ public final class FundTest {
             }
         }
         x.borrow(1, 300, 3, 4);
-        Check.badState(x, "0 is of the house of 1", () -> x.borrow(0, 201, 3, 4));
+        Check.badState(x, "0 is of the house of 1", o -> o.borrow(0, 201, 3, 4));
         Check.due("2 is not of the house of 1", x.borrow(2, 201, 3, 4), 9500 + 201);
-        Check.badState(x, "0 is of both houses", () -> x.borrow(0, 1, 3, 4));
+        Check.badState(x, "0 is of both houses", o -> o.borrow(0, 1, 3, 4));
         x.repay(2, 101);
-        Check.badState(x, "a coin too much", () -> x.borrow(0, 101, 3, 4));
+        Check.badState(x, "a coin too much", o -> o.borrow(0, 101, 3, 4));
         Check.due("500 for the house", x.borrow(0, 100, 3, 4), 9500 + 100);
         x.repay(1, 300);
-        Check.badState(x, "1 is of the house of 0", () -> x.borrow(1, 401, 3, 4));
+        Check.badState(x, "1 is of the house of 0", o -> o.borrow(1, 401, 3, 4));
         x.borrow(1, 300, 3, 4);
         x.repay(0, 100);
         x.die(1, 3);
         Check.due("the debt went to another house", x.borrow(0, 400, 3, 4), 9500 + 400);
-        Check.badState(x, "one that owes in the house", () -> x.borrow(2, 1, 3, 4));
+        Check.badState(x, "one that owes in the house", o -> o.borrow(2, 1, 3, 4));
     }
 
     private static void repay() {
-        SusuRing x = holders(4, 50, 30);
-        Check.outOfIndex(x, "repay(4, 1)", () -> x.repay(4, 1));
-        Check.outOfIndex(x, "repay(-1, 0)", () -> x.repay(-1, 0));
-        Check.badArgument(x, "repay(0, 0)", () -> x.repay(0, 0));
-        Check.badArgument(x, "repay(0, 10001)", () -> x.repay(0, 10001));
-        Check.badState(x, "repay without a loan", () -> x.repay(0, 1));
+        Counted x = holders(4, 50, 30);
+        Check.outOfIndex(x, "repay(4, 1)", o -> o.repay(4, 1));
+        Check.outOfIndex(x, "repay(-1, 0)", o -> o.repay(-1, 0));
+        Check.badArgument(x, "repay(0, 0)", o -> o.repay(0, 0));
+        Check.badArgument(x, "repay(0, 10001)", o -> o.repay(0, 10001));
+        Check.badState(x, "repay without a loan", o -> o.repay(0, 1));
         x.borrow(0, 50, 1, 2);
         x.earn(0, -70);
-        Check.badState(x, "more than the purse has", () -> x.repay(0, 11));
-        Check.badState(x, "all of it", () -> x.repay(0, 10000));
+        Check.badState(x, "more than the purse has", o -> o.repay(0, 11));
+        Check.badState(x, "all of it", o -> o.repay(0, 10000));
         Check.due("repay(0, 10)", x.repay(0, 10), 40);
         Check.due("the purse", x.of(0, 0), 0);
         Check.due("paid back so far", x.of(0, 3), 0);
@@ -174,7 +174,7 @@ public final class FundTest {
         Check.due("paid back", x.of(0, 3), 1);
         Check.due("the truth", x.of(0, 4), 500);
         Check.due("cash()", x.cash(), 2000);
-        Check.badState(x, "repay again", () -> x.repay(0, 1));
+        Check.badState(x, "repay again", o -> o.repay(0, 1));
         x.borrow(1, 40, 2, 3);
         x.die(1, 0);
         Check.due("the heir pays back", x.repay(0, 40), 0);
@@ -184,7 +184,7 @@ public final class FundTest {
     }
 
     private static void monthGrows() {
-        SusuRing x = holders(6, 50, 0);
+        Counted x = holders(6, 50, 0);
         x.borrow(0, 1, 2, 3);
         x.borrow(1, 20, 2, 3);
         x.borrow(4, 21, 2, 3);
@@ -202,7 +202,7 @@ public final class FundTest {
     }
 
     private static void monthDefaults() {
-        SusuRing x = holders(3, 50, 500);
+        Counted x = holders(3, 50, 500);
         x.borrow(0, 50, 1, 2);
         x.repay(0, 50);
         x.borrow(0, 51, 1, 2);
@@ -226,7 +226,7 @@ public final class FundTest {
         Check.due("cash()", x.cash(), 1500 - 51 + debt);
         Check.due("coins()", x.coins(), 0);
         Check.due("the month behind", x.month(false), 0);
-        Check.badState(x, "the steps begin anew", () -> x.borrow(0, 51, 1, 2));
+        Check.badState(x, "the steps begin anew", o -> o.borrow(0, 51, 1, 2));
         Check.due("a new loan is new", x.borrow(0, 50, 1, 2), 601);
         for (int i = 0; i < 6; i++) {
             Check.due("a month of the new loan", x.month(false), 0);
@@ -235,7 +235,7 @@ public final class FundTest {
     }
 
     private static void vouchersPayAsFarAsTheyCan() {
-        SusuRing x = holders(4, 50, 30);
+        Counted x = holders(4, 50, 30);
         x.borrow(0, 50, 1, 2);
         x.earn(2, 100);
         for (int i = 0; i < 6; i++) {
@@ -259,7 +259,7 @@ public final class FundTest {
 
     /** 0 vouches for 1, and is vouched for: who comes first takes what the purse has. */
     private static void defaultsByRisingPeople() {
-        SusuRing x = holders(4, 50, 40);
+        Counted x = holders(4, 50, 40);
         x.borrow(1, 50, 2, 3);
         x.borrow(0, 40, 3, 2);
         for (int i = 0; i < 6; i++) {
@@ -274,7 +274,7 @@ public final class FundTest {
     }
 
     private static void feast() {
-        SusuRing x = holders(3, 10, 0);
+        Counted x = holders(3, 10, 0);
         x.earn(0, 10);
         x.buy(0, 1);
         x.borrow(1, 50, 0, 2);
@@ -289,7 +289,7 @@ public final class FundTest {
         Check.due("no shares", x.of(0, 1) + x.of(1, 1) + x.of(2, 1), 0);
         Check.due("the truth of 0", x.of(0, 4), 0);
         Check.due("the truth of 1", x.of(1, 4), 3);
-        Check.badState(x, "no shares are left", x::feast);
+        Check.badState(x, "no shares are left", Counted::feast);
         x.buy(0, 1);
         Check.due("the rest at the next feast", x.feast(), 13);
         Check.due("cash()", x.cash(), 0);
@@ -299,7 +299,7 @@ public final class FundTest {
 
     /** Shares stay when the cash was lent and lost; the feast gives 0 then. */
     private static void feastOfNothing() {
-        SusuRing x = holders(3, 1, 0);
+        Counted x = holders(3, 1, 0);
         x.borrow(0, 30, 1, 2);
         x.earn(0, -30);
         for (int i = 0; i < 7; i++) {
@@ -311,11 +311,11 @@ public final class FundTest {
     }
 
     private static void feastRefusals() {
-        SusuRing x = holders(3, 10, 0);
+        Counted x = holders(3, 10, 0);
         x.borrow(2, 1, 0, 1);
-        Check.badState(x, "somebody has a loan", x::feast);
+        Check.badState(x, "somebody has a loan", Counted::feast);
         x.repay(2, 1);
         Check.due("feast()", x.feast(), 10);
-        Check.badState(x, "no shares", x::feast);
+        Check.badState(x, "no shares", Counted::feast);
     }
 }

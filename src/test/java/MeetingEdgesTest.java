@@ -77,8 +77,8 @@ public final class MeetingEdgesTest {
     }
 
     /** The turn is of 0; 1 has that much in the purse at a meeting for a sum of 50. */
-    private static SusuRing paidBy(int purse, boolean moved) {
-        SusuRing x = Village.started(2, 0, 50, SusuRing.AGE);
+    private static Counted paidBy(int purse, boolean moved) {
+        Counted x = Village.started(2, 0, 50, SusuRing.AGE);
         x.earn(0, 100);
         x.earn(1, purse);
         x.meet(0, moved);
@@ -86,7 +86,7 @@ public final class MeetingEdgesTest {
     }
 
     private static void checkPaid(int purse, int left, int paid, int arrears, int arrearsMoved) {
-        SusuRing x = paidBy(purse, false);
+        Counted x = paidBy(purse, false);
         Edge.due(purse + ": the purse", x.of(1, 0), left);
         Edge.due(purse + ": paid in", x.member(0, 1, 2), paid);
         Edge.due(purse + ": the truth", x.of(1, 4), paid);
@@ -103,7 +103,7 @@ public final class MeetingEdgesTest {
         checkPaid(49, 0, 49, 6, 1);
         checkPaid(50, 0, 50, 0, 0);
         checkPaid(51, 1, 50, 0, 0);
-        SusuRing x = Village.started(10, 0, 1000, SusuRing.NEED);
+        Counted x = Village.started(10, 0, 1000, SusuRing.NEED);
         Edge.due("ten empty purses", x.meet(0, false), 0);
         Edge.due("an empty pot", x.of(0, 0), 0);
         Edge.due("an empty box", x.ofCircle(0, 0), 0);
@@ -116,7 +116,7 @@ public final class MeetingEdgesTest {
         int[] purse = {0, 54, 55, 104, 105, 106};
         int[] arrears = {110, 56, 55, 6, 0, 0};
         for (int i = 0; i < purse.length; i++) {
-            SusuRing x = paidBy(0, false);
+            Counted x = paidBy(0, false);
             x.earn(1, purse[i]);
             int paid = Math.min(105, purse[i]);
             Edge.due("the turn", x.meet(0, false), 1);
@@ -129,7 +129,7 @@ public final class MeetingEdgesTest {
     }
 
     private static void fineOrNot() {
-        SusuRing x = paidBy(49, true);
+        Counted x = paidBy(49, true);
         Edge.due("moved: no fine on one coin", x.member(0, 1, 0), 1);
         x = paidBy(49, false);
         Edge.due("not moved: a fine on one coin", x.member(0, 1, 0), 6);
@@ -139,14 +139,14 @@ public final class MeetingEdgesTest {
         x.meet(0, true);
         Edge.due("moved: older arrears stay, with the sum", x.member(0, 1, 0), 105);
         Edge.due("a fine for each meeting", Edge.with(paidBy(0, false), y -> y.meet(0, false)).member(0, 1, 0), 110);
-        SusuRing z = paidBy(0, true);
+        Counted z = paidBy(0, true);
         z.earn(1, 50);
         z.meet(0, false);
         Edge.due("a fine when just the arrears were paid", z.member(0, 1, 0), 55);
     }
 
     private static int arrearsOf(int sum) {
-        SusuRing x = Village.started(2, 0, sum, SusuRing.AGE);
+        Counted x = Village.started(2, 0, sum, SusuRing.AGE);
         x.meet(0, false);
         return x.member(0, 0, 0);
     }
@@ -163,7 +163,7 @@ public final class MeetingEdgesTest {
 
     private static void noneInThisRound() {
         for (int way = SusuRing.LOT; way <= SusuRing.BID; way++) {
-            SusuRing x = Village.started(3, 100, 10, way);
+            Counted x = Village.started(3, 100, 10, way);
             boolean[] had = new boolean[3];
             for (int meeting = 0; meeting < 3; meeting++) {
                 x.want(0, 0, 100, false);
@@ -179,7 +179,7 @@ public final class MeetingEdgesTest {
     }
 
     private static int turnByWants(int way, int... wants) {
-        SusuRing x = Village.started(wants.length, 100, 10, way);
+        Counted x = Village.started(wants.length, 100, 10, way);
         for (int p = 0; p < wants.length; p++) {
             x.want(0, p, wants[p], way == SusuRing.BID);
         }
@@ -197,7 +197,7 @@ public final class MeetingEdgesTest {
         Edge.due("the same, who entered first", turnByWants(way, 4, 5, 5), 1);
         Edge.due("all the same", turnByWants(way, 10000, 10000), 0);
         Edge.due("the last of ten", turnByWants(way, 8, 8, 8, 8, 8, 8, 8, 8, 8, 9), 9);
-        SusuRing x = Village.people(3, 100);
+        Counted x = Village.people(3, 100);
         x.circle(10, way);
         x.enter(0, 2);
         x.enter(0, 1);
@@ -210,21 +210,21 @@ public final class MeetingEdgesTest {
 
     private static void greatestNeed() {
         greatestOf(SusuRing.NEED);
-        SusuRing x = Village.started(2, 100, 10, SusuRing.NEED);
+        Counted x = Village.started(2, 100, 10, SusuRing.NEED);
         x.want(0, 1, 10000, true);
         Edge.due("bids do not count", x.meet(0, false), 0);
     }
 
     private static void greatestBid() {
         greatestOf(SusuRing.BID);
-        SusuRing x = Village.started(2, 100, 10, SusuRing.BID);
+        Counted x = Village.started(2, 100, 10, SusuRing.BID);
         x.want(0, 1, 10000, false);
         Edge.due("needs do not count", x.meet(0, false), 0);
     }
 
     /** 1 pays arrears of 2, besides, as far as the purse goes: the box may hold more than 20. */
     private static void checkPot(int purse, int pot, int box) {
-        SusuRing x = Village.started(2, 0, 10, SusuRing.AGE);
+        Counted x = Village.started(2, 0, 10, SusuRing.AGE);
         x.earn(0, 100);
         x.earn(1, 9);
         x.meet(0, false);
@@ -241,18 +241,18 @@ public final class MeetingEdgesTest {
         checkPot(11, 20, 1);
         checkPot(12, 20, 2);
         checkPot(13, 20, 2);
-        SusuRing x = Village.started(10, 1000, 1000, SusuRing.AGE);
+        Counted x = Village.started(10, 1000, 1000, SusuRing.AGE);
         x.meet(0, false);
         Edge.due("1000 of ten", x.of(0, 0), 10000);
         Edge.due("the box", x.ofCircle(0, 0), 0);
-        SusuRing y = Village.started(2, 1, 1, SusuRing.AGE);
+        Counted y = Village.started(2, 1, 1, SusuRing.AGE);
         y.meet(0, false);
         Edge.due("1 of two", y.of(0, 0), 2);
     }
 
     /** Who has the turn bids so much; what the turn brings, what each other gets, what stays in the box. */
     private static void checkBid(int members, int sum, int bid, int gets, int each, int box) {
-        SusuRing x = Village.started(members, 1000, sum, SusuRing.BID);
+        Counted x = Village.started(members, 1000, sum, SusuRing.BID);
         x.want(0, 0, bid, true);
         String at = members + " members, " + sum + ", bid " + bid + ": ";
         Edge.due(at + "the turn", x.meet(0, false), 0);
@@ -277,12 +277,12 @@ public final class MeetingEdgesTest {
         checkBid(3, 5, 8, 8, 3, 1);
         checkBid(2, 1000, 999, 1001, 999, 0);
         checkBid(2, 1000, 1001, 1000, 1000, 0);
-        SusuRing x = Village.started(3, 0, 10, SusuRing.BID);
+        Counted x = Village.started(3, 0, 10, SusuRing.BID);
         x.want(0, 1, 10000, true);
         Edge.due("an empty pot", x.meet(0, false), 1);
         Edge.due("an empty box", x.ofCircle(0, 0), 0);
         Edge.due("empty purses", x.of(0, 0) + x.of(1, 0) + x.of(2, 0), 0);
-        SusuRing y = Village.started(2, 0, 10, SusuRing.BID);
+        Counted y = Village.started(2, 0, 10, SusuRing.BID);
         y.earn(0, 1);
         y.want(0, 1, 1, true);
         Edge.due("a pot of 1", y.meet(0, false), 1);
@@ -302,7 +302,7 @@ public final class MeetingEdgesTest {
 
     private static void noDiscountByOtherWays() {
         for (int way = SusuRing.LOT; way <= SusuRing.NEED; way++) {
-            SusuRing x = Village.started(2, 100, 10, way);
+            Counted x = Village.started(2, 100, 10, way);
             x.want(0, 0, 5, true);
             x.want(0, 1, 5, true);
             Edge.due("the turn", x.meet(0, false), 0);
@@ -314,7 +314,7 @@ public final class MeetingEdgesTest {
     private static void rounds() {
         for (int way = SusuRing.LOT; way <= SusuRing.BID; way++) {
             for (int members = 2; members <= 10; members += 8) {
-                SusuRing x = Village.started(members, 100, 1, way);
+                Counted x = Village.started(members, 100, 1, way);
                 for (int meeting = 1; meeting < members; meeting++) {
                     x.meet(0, false);
                     Edge.due("no round has ended", x.ofCircle(0, 3), 0);
@@ -329,7 +329,7 @@ public final class MeetingEdgesTest {
                 }
             }
         }
-        SusuRing y = Village.started(2, 0, 10, SusuRing.AGE);
+        Counted y = Village.started(2, 0, 10, SusuRing.AGE);
         y.meet(0, false);
         y.meet(0, false);
         Edge.due("arrears go on in the new round", y.member(0, 0, 0), 22);
@@ -337,7 +337,7 @@ public final class MeetingEdgesTest {
 
     private static void bidsAndNeeds() {
         for (int way = SusuRing.LOT; way <= SusuRing.BID; way++) {
-            SusuRing x = Village.started(3, 100, 10, way);
+            Counted x = Village.started(3, 100, 10, way);
             for (int p = 0; p < 3; p++) {
                 x.want(0, p, 10 - p, true);
                 x.want(0, p, 20 - p, false);
@@ -355,7 +355,7 @@ public final class MeetingEdgesTest {
                 Edge.due("the need behind the round", x.want(0, p, 0, false), 20 - p);
             }
         }
-        SusuRing y = Village.started(2, 100, 10, SusuRing.BID);
+        Counted y = Village.started(2, 100, 10, SusuRing.BID);
         y.circle(10, SusuRing.BID);
         Village.enterAll(y, 1, 2);
         y.want(1, 0, 5, true);
@@ -373,8 +373,8 @@ public final class MeetingEdgesTest {
         Edge.due("leave(3, 15)", fourCirclesOfTheLast().leave(3, 15), 0);
     }
 
-    private static SusuRing fourCirclesOfTheLast() {
-        SusuRing x = Village.people(16, 5);
+    private static Counted fourCirclesOfTheLast() {
+        Counted x = Village.people(16, 5);
         for (int c = 0; c < 4; c++) {
             x.circle(10, c);
             x.enter(c, 15);
@@ -413,8 +413,8 @@ public final class MeetingEdgesTest {
     }
 
     /** 1 has so much for a sum of 10, and no turn yet. */
-    private static SusuRing withArrears(int purse) {
-        SusuRing x = Village.started(3, 0, 10, SusuRing.AGE);
+    private static Counted withArrears(int purse) {
+        Counted x = Village.started(3, 0, 10, SusuRing.AGE);
         x.earn(1, purse);
         x.meet(0, true);
         return x;
@@ -440,8 +440,8 @@ public final class MeetingEdgesTest {
     }
 
     /** 2 paid in 20 at the second meeting; with what 0 paid besides, the pot left so much in the box. */
-    private static SusuRing withBox(int purseOf0) {
-        SusuRing x = Village.started(3, 0, 10, SusuRing.AGE);
+    private static Counted withBox(int purseOf0) {
+        Counted x = Village.started(3, 0, 10, SusuRing.AGE);
         x.meet(0, true);
         x.earn(0, purseOf0);
         x.earn(1, 20);
@@ -451,7 +451,7 @@ public final class MeetingEdgesTest {
     }
 
     private static void checkBack(int purseOf0, int boxBefore, int back, int boxThen) {
-        SusuRing x = withBox(purseOf0);
+        Counted x = withBox(purseOf0);
         Edge.due("paid in", x.member(0, 2, 2), 20);
         Edge.due("the box before", x.ofCircle(0, 0), boxBefore);
         Edge.due("what goes back", x.leave(0, 2), back);
@@ -467,15 +467,15 @@ public final class MeetingEdgesTest {
         checkBack(10, 20, 20, 0);
         checkBack(11, 21, 20, 1);
         checkBack(20, 30, 20, 10);
-        SusuRing x = Edge.with(Village.started(3, 100, 10, SusuRing.AGE), y -> y.meet(0, false));
+        Counted x = Edge.with(Village.started(3, 100, 10, SusuRing.AGE), y -> y.meet(0, false));
         Edge.due("an empty box", x.leave(0, 2), 0);
         Edge.due("the purse", x.of(2, 0), 90);
         Edge.due("the truth", x.of(2, 4), 10);
-        SusuRing z = Village.started(3, 100, 10, SusuRing.BID);
+        Counted z = Village.started(3, 100, 10, SusuRing.BID);
         z.want(0, 0, 15, true);
         z.meet(0, false);
         Edge.due("one coin in the box", z.leave(0, 1), 1);
-        SusuRing w = withBox(20);
+        Counted w = withBox(20);
         Edge.due("nothing was paid in yet", Village.started(2, 100, 10, 1).leave(0, 0), 0);
         Edge.due("two who leave, the first", w.leave(0, 2), 20);
         Edge.due("a new round", w.ofCircle(0, 3), 1);
@@ -484,7 +484,7 @@ public final class MeetingEdgesTest {
     }
 
     private static void sinceTheRoundBegan() {
-        SusuRing x = Village.started(2, 0, 10, SusuRing.AGE);
+        Counted x = Village.started(2, 0, 10, SusuRing.AGE);
         x.meet(0, true);
         x.meet(0, true);
         x.earn(0, 100);
@@ -493,7 +493,7 @@ public final class MeetingEdgesTest {
         Edge.due("arrears of the old round count", x.member(0, 1, 2), 30);
         Edge.due("the box", x.ofCircle(0, 0), 40);
         Edge.due("what goes back", x.leave(0, 1), 30);
-        SusuRing y = Village.started(2, 0, 10, SusuRing.AGE);
+        Counted y = Village.started(2, 0, 10, SusuRing.AGE);
         y.meet(0, true);
         y.earn(0, 100);
         y.earn(1, 100);
@@ -504,7 +504,7 @@ public final class MeetingEdgesTest {
     }
 
     private static void newRoundByLeaving() {
-        SusuRing x = Village.started(3, 100, 10, SusuRing.AGE);
+        Counted x = Village.started(3, 100, 10, SusuRing.AGE);
         x.meet(0, false);
         x.leave(0, 1);
         Edge.due("one of those left had none", x.ofCircle(0, 3), 0);
@@ -515,28 +515,28 @@ public final class MeetingEdgesTest {
         Edge.due("nothing is paid in", x.member(0, 0, 2), 0);
         Edge.due("no meeting", x.ofCircle(0, 2), 1);
         Edge.due("the last may leave now", x.leave(0, 0), 0);
-        SusuRing y = Village.started(10, 100, 10, SusuRing.AGE);
+        Counted y = Village.started(10, 100, 10, SusuRing.AGE);
         for (int meeting = 0; meeting < 9; meeting++) {
             y.meet(0, false);
         }
         Edge.due("the one of ten without a turn leaves", y.leave(0, 9), 0);
         Edge.due("a new round", y.ofCircle(0, 3), 1);
         Edge.due("the first again", y.meet(0, false), 0);
-        SusuRing z = Village.started(2, 100, 10, SusuRing.AGE);
+        Counted z = Village.started(2, 100, 10, SusuRing.AGE);
         z.leave(0, 0);
         Edge.due("no turn at all, no new round", z.ofCircle(0, 3), 0);
     }
 
     private static void nobodyLeft() {
         for (int way = SusuRing.LOT; way <= SusuRing.BID; way++) {
-            SusuRing x = Village.started(2, 100, 10, way);
+            Counted x = Village.started(2, 100, 10, way);
             x.leave(0, 0);
             x.leave(0, 1);
             Edge.due("no round ends", x.ofCircle(0, 3), 0);
             Edge.due("no members", x.ofCircle(0, 1), 0);
             Edge.due("nobody has the turn", x.ofCircle(0, 4), SusuRing.NONE);
         }
-        SusuRing y = Village.circle(1, 100, 10, SusuRing.AGE);
+        Counted y = Village.circle(1, 100, 10, SusuRing.AGE);
         Edge.due("before the start", y.leave(0, 0), 0);
         Edge.due("no round ends", y.ofCircle(0, 3), 0);
     }

@@ -73,6 +73,15 @@ final class Model {
         }
     }
 
+    /** How many rounds have ended in all circles. */
+    int rounds() {
+        int all = 0;
+        for (Ring r : rings) {
+            all += r.rounds;
+        }
+        return all;
+    }
+
     private boolean noPerson(int p) {
         return p < 0 || p >= count;
     }

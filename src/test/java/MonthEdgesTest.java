@@ -25,7 +25,7 @@ public final class MonthEdgesTest {
     }
 
     private static int grown(int debt) {
-        SusuRing x = Village.holders(3, 50, 0);
+        Counted x = Village.holders(3, 50, 0);
         Village.payBackLoans(x, 9, 0, 1, 2);
         x.borrow(0, debt, 1, 2);
         int cash = x.cash();
@@ -41,7 +41,7 @@ public final class MonthEdgesTest {
         for (int i = 0; i < debts.length; i++) {
             Edge.due("of " + debts[i], grown(debts[i]), due[i]);
         }
-        SusuRing x = Village.holders(3, 50, 0);
+        Counted x = Village.holders(3, 50, 0);
         x.borrow(0, 1, 1, 2);
         x.borrow(1, 20, 0, 2);
         x.borrow(2, 41, 0, 1);
@@ -52,7 +52,7 @@ public final class MonthEdgesTest {
     }
 
     private static void droughts() {
-        SusuRing x = Village.holders(3, 50, 100);
+        Counted x = Village.holders(3, 50, 100);
         x.borrow(0, 50, 1, 2);
         for (int month = 0; month < 20; month++) {
             Edge.due("none in default", x.month(true), 0);
@@ -68,9 +68,9 @@ public final class MonthEdgesTest {
     }
 
     private static void noLoans() {
-        Edge.due("no people", new SusuRing().month(false), 0);
+        Edge.due("no people", new Counted().month(false), 0);
         Edge.due("16 people", Village.people(16, 5).month(false), 0);
-        SusuRing x = Village.holders(3, 50, 0);
+        Counted x = Village.holders(3, 50, 0);
         x.borrow(0, 1, 1, 2);
         x.repay(0, 1);
         Edge.due("a loan that is paid back", x.month(false), 0);
@@ -78,7 +78,7 @@ public final class MonthEdgesTest {
     }
 
     private static void sixMonths() {
-        SusuRing x = Village.holders(3, 50, 100);
+        Counted x = Village.holders(3, 50, 100);
         x.borrow(0, 50, 1, 2);
         for (int month = 1; month <= 6; month++) {
             Edge.due("month " + month, x.month(false), 0);
@@ -87,12 +87,12 @@ public final class MonthEdgesTest {
         }
         Edge.due("month 7", x.month(false), 1);
         Edge.due("month 8", x.month(false), 0);
-        SusuRing y = Village.holders(3, 50, 100);
+        Counted y = Village.holders(3, 50, 100);
         y.borrow(0, 50, 1, 2);
         Village.months(y, 6);
         y.repay(0, 60);
         Edge.due("a part paid back makes it no younger", y.month(false), 1);
-        SusuRing z = Village.holders(3, 50, 100);
+        Counted z = Village.holders(3, 50, 100);
         z.borrow(0, 50, 1, 2);
         Village.months(z, 6);
         Edge.due("paid back at the last", z.repay(0, 10000), 0);
@@ -104,14 +104,14 @@ public final class MonthEdgesTest {
     }
 
     /** 1 and 2 vouch, with so much in their purses, for a loan that is in default now. */
-    private static SusuRing afterDefault(int loan, int purse1, int purse2) {
-        SusuRing x = beforeDefault(loan, purse1, purse2);
+    private static Counted afterDefault(int loan, int purse1, int purse2) {
+        Counted x = beforeDefault(loan, purse1, purse2);
         Edge.due("in default", x.month(false), 1);
         return x;
     }
 
-    private static SusuRing beforeDefault(int loan, int purse1, int purse2) {
-        SusuRing x = Village.holders(4, 10, 0);
+    private static Counted beforeDefault(int loan, int purse1, int purse2) {
+        Counted x = Village.holders(4, 10, 0);
         x.earn(1, purse1);
         x.earn(2, purse2);
         x.earn(3, 1000);
@@ -120,7 +120,7 @@ public final class MonthEdgesTest {
         return x;
     }
 
-    private static void checkPaid(SusuRing x, int loan, int paid1, int paid2, int purse1, int purse2) {
+    private static void checkPaid(Counted x, int loan, int paid1, int paid2, int purse1, int purse2) {
         Edge.due("the first pays", purse1 - x.of(1, 0), paid1);
         Edge.due("the second pays", purse2 - x.of(2, 0), paid2);
         Edge.due("the truth of the first", x.of(1, 4), 100 + paid1);
@@ -139,7 +139,7 @@ public final class MonthEdgesTest {
         checkPaid(afterDefault(49, 100, 100), 49, 36, 37, 100, 100);
         Edge.due("1 is 8 in seven months", Village.debtAfter(1, 7), 8);
         checkPaid(afterDefault(1, 100, 100), 1, 4, 4, 100, 100);
-        SusuRing x = beforeDefault(1, 100, 100);
+        Counted x = beforeDefault(1, 100, 100);
         x.earn(0, 10);
         x.repay(0, 6);
         Edge.due("one coin is left to grow", x.of(0, 2), 1);
@@ -167,20 +167,20 @@ public final class MonthEdgesTest {
     }
 
     private static void deadVouchers() {
-        SusuRing x = beforeDefault(50, 100, 100);
+        Counted x = beforeDefault(50, 100, 100);
         x.die(1, 3);
         Edge.due("the first is dead", x.month(false), 1);
         Edge.due("the second pays the rest", x.of(2, 0), 63);
         Edge.due("the dead", x.of(1, 0), 0);
         Edge.due("the truth of the dead", x.of(1, 4), 100);
         Edge.due("the heir of the first pays nothing", x.of(3, 0), 1100);
-        SusuRing y = beforeDefault(50, 100, 100);
+        Counted y = beforeDefault(50, 100, 100);
         y.die(2, 3);
         Edge.due("the second is dead", y.month(false), 1);
         Edge.due("the first pays half", y.of(1, 0), 63);
         Edge.due("the truth of the dead", y.of(2, 4), 100);
         Edge.due("the heir of the second pays nothing", y.of(3, 0), 1100);
-        SusuRing z = beforeDefault(50, 100, 100);
+        Counted z = beforeDefault(50, 100, 100);
         z.die(1, 3);
         z.die(2, 3);
         Edge.due("both are dead", z.month(false), 1);
@@ -189,7 +189,7 @@ public final class MonthEdgesTest {
     }
 
     private static void whatLacksIsLost() {
-        SusuRing x = afterDefault(50, 0, 0);
+        Counted x = afterDefault(50, 0, 0);
         Edge.due("the fund", x.cash(), 350);
         x.earn(1, 1000);
         x.earn(2, 1000);
@@ -208,7 +208,7 @@ public final class MonthEdgesTest {
     }
 
     private static void noneSoFar() {
-        SusuRing x = Village.holders(4, 10, 100);
+        Counted x = Village.holders(4, 10, 100);
         Village.payBackLoans(x, 3, 0, 1, 2);
         Village.payBackLoans(x, 2, 1, 2, 3);
         x.borrow(0, 1, 1, 2);
@@ -223,7 +223,7 @@ public final class MonthEdgesTest {
 
     /** Both debtors and those who vouch for them are mixed, and no purse has enough for all. */
     private static void risingPeople() {
-        SusuRing x = Village.holders(4, 10, 0);
+        Counted x = Village.holders(4, 10, 0);
         x.borrow(3, 50, 0, 1);
         x.borrow(2, 50, 1, 0);
         x.earn(0, 40);
@@ -233,7 +233,7 @@ public final class MonthEdgesTest {
         Edge.due("0 pays 37 and 3", x.of(0, 0), 0);
         Edge.due("1 pays 37 and 13", x.of(1, 0), 0);
         Edge.due("the fund", x.cash(), 390);
-        SusuRing y = Village.holders(3, 10, 0);
+        Counted y = Village.holders(3, 10, 0);
         y.borrow(0, 50, 1, 2);
         y.borrow(1, 50, 0, 2);
         Village.months(y, 7);
@@ -243,14 +243,14 @@ public final class MonthEdgesTest {
     }
 
     private static void howMany() {
-        SusuRing x = Village.holders(16, 10, 0);
+        Counted x = Village.holders(16, 10, 0);
         for (int p = 0; p < 16; p++) {
             x.borrow(p, 50, (p + 1) % 16, (p + 2) % 16);
         }
         Village.months(x, 6);
         Edge.due("all 16", x.month(false), 16);
         Edge.due("none is left", x.month(false), 0);
-        SusuRing y = Village.holders(3, 10, 0);
+        Counted y = Village.holders(3, 10, 0);
         y.borrow(0, 5, 1, 2);
         y.month(false);
         y.borrow(1, 5, 0, 2);
@@ -261,39 +261,39 @@ public final class MonthEdgesTest {
     }
 
     private static void feastWithoutShares() {
-        Edge.state("no people", SusuRing::new, SusuRing::feast);
-        Edge.state("16 people without", () -> Village.people(16, 100), SusuRing::feast);
-        Edge.state("behind a feast", () -> Edge.with(Village.holders(3, 7, 0), SusuRing::feast), SusuRing::feast);
+        Edge.state("no people", Counted::new, Counted::feast);
+        Edge.state("16 people without", () -> Village.people(16, 100), Counted::feast);
+        Edge.state("behind a feast", () -> Edge.with(Village.holders(3, 7, 0), Counted::feast), Counted::feast);
         Edge.state("no shares, but cash", () -> Edge.with(Village.holders(3, 7, 10), x -> {
             x.borrow(0, 20, 1, 2);
             x.month(false);
             x.repay(0, 21);
             x.feast();
-        }), SusuRing::feast);
+        }), Counted::feast);
         Edge.due("one share", Village.holders(1, 1, 0).feast(), 10);
         Edge.due("one share of 16 people", Edge.with(Village.people(16, 10), x -> x.buy(15, 1)).feast(), 10);
     }
 
     private static void feastWithLoan() {
         Edge.state("of one coin", () -> Edge.with(Village.holders(3, 7, 0), x -> x.borrow(2, 1, 0, 1)),
-            SusuRing::feast);
+            Counted::feast);
         Edge.state("of who is the first", () -> Edge.with(Village.holders(3, 7, 0), x -> x.borrow(0, 1, 2, 1)),
-            SusuRing::feast);
+            Counted::feast);
         Edge.state("of the heir", () -> Edge.with(Village.holders(3, 7, 0), x -> {
             x.borrow(0, 1, 2, 1);
             x.die(0, 1);
-        }), SusuRing::feast);
+        }), Counted::feast);
         Edge.state("of an heir who had no share", () -> Edge.with(Village.holders(3, 7, 0), x -> {
             x.person(30, Village.nameOf(3));
             x.borrow(0, 1, 2, 1);
             x.die(0, 3);
-        }), SusuRing::feast);
+        }), Counted::feast);
         Edge.due("paid back", Edge.with(Village.holders(3, 7, 0), x -> Village.payBackLoans(x, 1, 0, 1, 2)).feast(), 10);
     }
 
     /** Of 30 in the fund with 3 shares so much was lent, and lost. */
-    private static SusuRing lost(int amount) {
-        SusuRing x = Village.holders(3, 1, 0);
+    private static Counted lost(int amount) {
+        Counted x = Village.holders(3, 1, 0);
         x.borrow(0, amount, 1, 2);
         Village.months(x, 7);
         return x;
@@ -305,17 +305,17 @@ public final class MonthEdgesTest {
         Edge.due("3 for 3 shares", lost(27).feast(), 1);
         Edge.due("5 for 3 shares", lost(25).feast(), 1);
         Edge.due("6 for 3 shares", lost(24).feast(), 2);
-        Edge.due("2 stay", Edge.with(lost(28), SusuRing::feast).cash(), 2);
-        Edge.due("none stay", Edge.with(lost(27), SusuRing::feast).cash(), 0);
-        Edge.due("2 stay", Edge.with(lost(25), SusuRing::feast).cash(), 2);
-        SusuRing x = Village.holders(16, 100, 0);
+        Edge.due("2 stay", Edge.with(lost(28), Counted::feast).cash(), 2);
+        Edge.due("none stay", Edge.with(lost(27), Counted::feast).cash(), 0);
+        Edge.due("2 stay", Edge.with(lost(25), Counted::feast).cash(), 2);
+        Counted x = Village.holders(16, 100, 0);
         Edge.due("1600 shares", x.feast(), 10);
         for (int p = 0; p < 16; p++) {
             Edge.due("for 100 shares", x.of(p, 0), 1000);
             Edge.due("the truth", x.of(p, 4), 0);
         }
         Edge.due("an empty fund", x.cash(), 0);
-        SusuRing y = Edge.with(Village.people(3, 100), z -> {
+        Counted y = Edge.with(Village.people(3, 100), z -> {
             z.buy(0, 1);
             z.buy(2, 9);
         });
@@ -323,20 +323,20 @@ public final class MonthEdgesTest {
         Edge.due("for 1 share", y.of(0, 0), 100);
         Edge.due("for none", y.of(1, 0), 100);
         Edge.due("for 9 shares", y.of(2, 0), 100);
-        SusuRing z = Edge.with(lost(25), SusuRing::feast);
+        Counted z = Edge.with(lost(25), Counted::feast);
         z.earn(1, 9);
         z.buy(1, 1);
         Edge.due("what stayed is shared out at the next feast", z.feast(), 12);
     }
 
     private static void feastTakesShares() {
-        SusuRing x = Village.holders(16, 100, 0);
+        Counted x = Village.holders(16, 100, 0);
         x.feast();
         for (int p = 0; p < 16; p++) {
             Edge.due("the shares of " + p, x.of(p, 1), 0);
         }
-        SusuRing y = Edge.with(lost(30), SusuRing::feast);
+        Counted y = Edge.with(lost(30), Counted::feast);
         Edge.due("when each share gets 0, too", y.of(0, 1) + y.of(1, 1) + y.of(2, 1), 0);
-        Edge.state("nobody may borrow then", () -> Edge.with(lost(20), SusuRing::feast), z -> z.borrow(0, 1, 1, 2));
+        Edge.state("nobody may borrow then", () -> Edge.with(lost(20), Counted::feast), z -> z.borrow(0, 1, 1, 2));
     }
 }

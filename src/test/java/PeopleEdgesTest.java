@@ -24,22 +24,22 @@ public final class PeopleEdgesTest {
     }
 
     private static void newObject() {
-        Edge.index("no people: of(0, 0)", SusuRing::new, x -> x.of(0, 0));
-        Edge.index("no people: earn(0, 1)", SusuRing::new, x -> x.earn(0, 1));
-        Edge.index("no people: die(0, 1)", SusuRing::new, x -> x.die(0, 1));
-        Edge.index("no people: buy(0, 1)", SusuRing::new, x -> x.buy(0, 1));
-        Edge.index("no people: borrow(0, 1, 1, 2)", SusuRing::new, x -> x.borrow(0, 1, 1, 2));
-        Edge.index("no people: repay(0, 1)", SusuRing::new, x -> x.repay(0, 1));
-        Edge.index("no people: note(0, 0, 1)", SusuRing::new, x -> x.note(0, 0, 1));
-        Edge.index("no circles: enter(0, 0)", SusuRing::new, x -> x.enter(0, 0));
-        Edge.index("no circles: start(0, 0)", SusuRing::new, x -> x.start(0, 0));
-        Edge.index("no circles: want(0, 0, 1, true)", SusuRing::new, x -> x.want(0, 0, 1, true));
-        Edge.index("no circles: meet(0, false)", SusuRing::new, x -> x.meet(0, false));
-        Edge.index("no circles: leave(0, 0)", SusuRing::new, x -> x.leave(0, 0));
-        Edge.index("no circles: member(0, 0, 0)", SusuRing::new, x -> x.member(0, 0, 0));
-        Edge.index("no circles: ofCircle(0, 0)", SusuRing::new, x -> x.ofCircle(0, 0));
-        Edge.state("no shares: feast()", SusuRing::new, SusuRing::feast);
-        SusuRing x = new SusuRing();
+        Edge.index("no people: of(0, 0)", Counted::new, x -> x.of(0, 0));
+        Edge.index("no people: earn(0, 1)", Counted::new, x -> x.earn(0, 1));
+        Edge.index("no people: die(0, 1)", Counted::new, x -> x.die(0, 1));
+        Edge.index("no people: buy(0, 1)", Counted::new, x -> x.buy(0, 1));
+        Edge.index("no people: borrow(0, 1, 1, 2)", Counted::new, x -> x.borrow(0, 1, 1, 2));
+        Edge.index("no people: repay(0, 1)", Counted::new, x -> x.repay(0, 1));
+        Edge.index("no people: note(0, 0, 1)", Counted::new, x -> x.note(0, 0, 1));
+        Edge.index("no circles: enter(0, 0)", Counted::new, x -> x.enter(0, 0));
+        Edge.index("no circles: start(0, 0)", Counted::new, x -> x.start(0, 0));
+        Edge.index("no circles: want(0, 0, 1, true)", Counted::new, x -> x.want(0, 0, 1, true));
+        Edge.index("no circles: meet(0, false)", Counted::new, x -> x.meet(0, false));
+        Edge.index("no circles: leave(0, 0)", Counted::new, x -> x.leave(0, 0));
+        Edge.index("no circles: member(0, 0, 0)", Counted::new, x -> x.member(0, 0, 0));
+        Edge.index("no circles: ofCircle(0, 0)", Counted::new, x -> x.ofCircle(0, 0));
+        Edge.state("no shares: feast()", Counted::new, Counted::feast);
+        Counted x = new Counted();
         Edge.due("month(false)", x.month(false), 0);
         Edge.due("month(true)", x.month(true), 0);
         Edge.due("cash()", x.cash(), 0);
@@ -48,11 +48,11 @@ public final class PeopleEdgesTest {
             Edge.due("audit(" + book + ")", x.audit(book), SusuRing.NONE);
         }
         Edge.due("person", x.person(1, 0), 0);
-        Edge.due("another object has none", Check.people(new SusuRing()), 0);
+        Edge.index("another object has none", Counted::new, y -> y.of(0, 0));
     }
 
     private static void all512Calls() {
-        SusuRing x = new SusuRing();
+        Counted x = new Counted();
         x.person(30, 0);
         for (int call = 2; call <= 511; call++) {
             Edge.due("call " + call, x.earn(0, 10000), (call - 1) * 10000);
@@ -61,7 +61,7 @@ public final class PeopleEdgesTest {
     }
 
     private static void sixteenPeople() {
-        Edge.due("the first", new SusuRing().person(30, 0), 0);
+        Edge.due("the first", new Counted().person(30, 0), 0);
         Edge.due("the 16th", Village.people(15, 0).person(30, 0), 15);
         Edge.state("a 17th", () -> Village.people(16, 0), x -> x.person(30, 0));
         Edge.state("a 17th for one dead", () -> Edge.with(Village.people(16, 0), x -> x.die(15, 0)),
@@ -69,15 +69,15 @@ public final class PeopleEdgesTest {
     }
 
     private static void ages() {
-        Edge.argumentOutside("person(age, 5)", SusuRing::new, 1, 120, (x, age) -> x.person(age, 5));
-        Edge.due("person(1, 5)", new SusuRing().person(1, 5), 0);
-        Edge.due("person(120, 5)", new SusuRing().person(120, 5), 0);
+        Edge.argumentOutside("person(age, 5)", Counted::new, 1, 120, (x, age) -> x.person(age, 5));
+        Edge.due("person(1, 5)", new Counted().person(1, 5), 0);
+        Edge.due("person(120, 5)", new Counted().person(120, 5), 0);
     }
 
     private static void names() {
-        Edge.argumentOutside("person(30, name)", SusuRing::new, 0, 99999, (x, name) -> x.person(30, name));
-        Edge.due("person(30, 0)", new SusuRing().person(30, 0), 0);
-        Edge.due("person(30, 99999)", new SusuRing().person(30, 99999), 0);
+        Edge.argumentOutside("person(30, name)", Counted::new, 0, 99999, (x, name) -> x.person(30, name));
+        Edge.due("person(30, 0)", new Counted().person(30, 0), 0);
+        Edge.due("person(30, 99999)", new Counted().person(30, 99999), 0);
     }
 
     private static void personInOrder() {
@@ -89,7 +89,7 @@ public final class PeopleEdgesTest {
 
     private static void emptyPurse() {
         for (int person = 0; person < 16; person++) {
-            SusuRing x = Village.people(16, 0);
+            Counted x = Village.people(16, 0);
             for (int what = 0; what <= 4; what++) {
                 Edge.due("of(" + person + ", " + what + ")", x.of(person, what), 0);
             }
@@ -99,7 +99,7 @@ public final class PeopleEdgesTest {
     }
 
     private static int houseOfTwo(int one, int other) {
-        SusuRing x = new SusuRing();
+        Counted x = new Counted();
         x.person(30, one);
         x.person(30, other);
         Edge.due("as the other sees it", x.of(1, 6), x.of(0, 6));
@@ -135,7 +135,7 @@ public final class PeopleEdgesTest {
     }
 
     private static void houseSizes() {
-        SusuRing x = new SusuRing();
+        Counted x = new Counted();
         for (int p = 0; p < 16; p++) {
             x.person(30, p % 10);
         }
@@ -146,10 +146,10 @@ public final class PeopleEdgesTest {
             Edge.due("for the dead, too", x.of(p, 6), 15 - p);
         }
         Edge.due("the last one with oneself", x.of(15, 6), 1);
-        SusuRing y = Edge.with(Village.people(2, 0), z -> z.die(0, 1));
+        Counted y = Edge.with(Village.people(2, 0), z -> z.die(0, 1));
         Edge.due("a house of one dead", y.of(0, 6), 0);
         Edge.due("the heir of another house", y.of(1, 6), 1);
-        SusuRing chain = new SusuRing();
+        Counted chain = new Counted();
         chain.person(30, 1);
         chain.person(30, 0);
         chain.person(30, 10);
@@ -158,8 +158,8 @@ public final class PeopleEdgesTest {
     }
 
     /** 3 is dead; the others could do all that is refused here. */
-    private static SusuRing withOneDead() {
-        SusuRing x = Village.people(4, 500);
+    private static Counted withOneDead() {
+        Counted x = Village.people(4, 500);
         x.circle(10, SusuRing.NEED);
         x.enter(0, 0);
         x.enter(0, 3);
@@ -187,7 +187,7 @@ public final class PeopleEdgesTest {
         Edge.state("repay", PeopleEdgesTest::withOneDead, x -> x.repay(3, 1));
         Edge.due("has no place", withOneDead().member(0, 3, 3), SusuRing.NONE);
         Edge.due("does not live", withOneDead().of(3, 5), 0);
-        SusuRing x = withOneDead();
+        Counted x = withOneDead();
         Edge.due("feast()", x.feast(), 10);
         Edge.due("gets nothing at a feast", x.of(3, 0), 0);
     }
@@ -214,22 +214,27 @@ public final class PeopleEdgesTest {
         Edge.state("10000 of 9999", () -> Village.people(1, 9999), x -> x.earn(0, -10000));
     }
 
-    /** More calls than are promised: within 512 of them no purse can be full. */
-    private static SusuRing rich(int purse) {
-        SusuRing x = Village.people(1, 0);
+    /**
+     * No purse can be full within 512 calls, and what later calls answer is free. What they throw is not, for a
+     * call throws exactly what and where the document says (LANGUAGE.md, 6): that alone is looked at here.
+     */
+    private static void fullPurse() {
+        String state = IllegalStateException.class.getName();
+        checkThrown("10000000", 9999999, 1, "nothing");
+        checkThrown("10000000 by 10000", 9990000, 10000, "nothing");
+        checkThrown("10000001", 10000000, 1, state);
+        checkThrown("10000001 by 10000", 9990001, 10000, state);
+        checkThrown("nothing more", 10000000, 0, "nothing");
+        checkThrown("less", 10000000, -1, "nothing");
+    }
+
+    private static void checkThrown(String call, int purse, int amount, String due) {
+        SusuRing x = new SusuRing();
+        x.person(30, 0);
         for (int left = purse; left > 0; left -= 10000) {
             x.earn(0, Math.min(left, 10000));
         }
-        return x;
-    }
-
-    private static void fullPurse() {
-        Edge.due("10000000", rich(9999999).earn(0, 1), 10000000);
-        Edge.due("10000000 by 10000", rich(9990000).earn(0, 10000), 10000000);
-        Edge.state("10000001", () -> rich(10000000), x -> x.earn(0, 1));
-        Edge.state("10000001 by 10000", () -> rich(9990001), x -> x.earn(0, 10000));
-        Edge.due("nothing more", rich(10000000).earn(0, 0), 10000000);
-        Edge.due("less", rich(10000000).earn(0, -1), 9999999);
+        Check.due("earn: would be above 10000000: " + call, Check.thrownBy(() -> x.earn(0, amount)), due);
     }
 
     private static void earnInOrder() {

@@ -19,8 +19,8 @@ public final class RefusedCallsTest {
     }
 
     /** Sixteen people, the last one dead, with four circles, loans of several ages, and notes. */
-    private static SusuRing busy() {
-        SusuRing x = Village.people(16, 0);
+    private static Counted busy() {
+        Counted x = Village.people(16, 0);
         for (int p = 0; p < 13; p++) {
             x.earn(p, 300 + p);
             x.buy(p, 5 + p);
@@ -43,7 +43,7 @@ public final class RefusedCallsTest {
     }
 
     /** 0: by lot, in its second round. 1: not started. 2: by need, with arrears of POOR. 3: by bid, full. */
-    private static void fillCircles(SusuRing x) {
+    private static void fillCircles(Counted x) {
         for (int way = SusuRing.LOT; way <= SusuRing.BID; way++) {
             x.circle(15, way);
             Village.enterAll(x, way, way == SusuRing.BID ? 10 : 3);
@@ -67,15 +67,15 @@ public final class RefusedCallsTest {
         x.want(2, POOR, 4, false);
     }
 
-    private static void index(String call, Edge.Call refused) {
+    private static void index(String call, Check.Call refused) {
         Edge.index(call, RefusedCallsTest::busy, refused);
     }
 
-    private static void argument(String call, Edge.Call refused) {
+    private static void argument(String call, Check.Call refused) {
         Edge.argument(call, RefusedCallsTest::busy, refused);
     }
 
-    private static void state(String call, Edge.Call refused) {
+    private static void state(String call, Check.Call refused) {
         Edge.state(call, RefusedCallsTest::busy, refused);
     }
 
@@ -131,7 +131,7 @@ public final class RefusedCallsTest {
         state("leave: the dead", x -> x.leave(1, DEAD));
         state("leave: had a turn", x -> x.leave(2, 0));
         state("leave: with arrears", x -> x.leave(2, POOR));
-        SusuRing x = busy();
+        Counted x = busy();
         int turns = 0;
         for (int p = 0; p < 3; p++) {
             turns += x.member(0, p, 1);
@@ -146,7 +146,7 @@ public final class RefusedCallsTest {
         state("buy: the dead", x -> x.buy(DEAD, 1));
         state("buy: too many", x -> x.buy(RICH, 1));
         state("buy: an empty purse", x -> x.buy(POOR, 1));
-        state("feast: there are loans", SusuRing::feast);
+        state("feast: there are loans", Counted::feast);
     }
 
     private static void loans() {

@@ -9,8 +9,8 @@ final class Village {
     }
 
     /** People of 30 years, each of a house of the own. */
-    static SusuRing people(int count, int purse) {
-        SusuRing x = new SusuRing();
+    static Counted people(int count, int purse) {
+        Counted x = new Counted();
         for (int p = 0; p < count; p++) {
             x.person(30, nameOf(p));
             x.earn(p, purse);
@@ -18,43 +18,43 @@ final class Village {
         return x;
     }
 
-    static void enterAll(SusuRing x, int circle, int members) {
+    static void enterAll(Counted x, int circle, int members) {
         for (int p = 0; p < members; p++) {
             x.enter(circle, p);
         }
     }
 
     /** A circle that has not started, of all its people, who enter as they are numbered. */
-    static SusuRing circle(int members, int purse, int sum, int way) {
-        SusuRing x = people(members, purse);
+    static Counted circle(int members, int purse, int sum, int way) {
+        Counted x = people(members, purse);
         x.circle(sum, way);
         enterAll(x, 0, members);
         return x;
     }
 
-    static SusuRing started(int members, int purse, int sum, int way) {
-        SusuRing x = circle(members, purse, sum, way);
+    static Counted started(int members, int purse, int sum, int way) {
+        Counted x = circle(members, purse, sum, way);
         x.start(0, 0);
         return x;
     }
 
     /** People with shares, and with what is left in the purse behind buying them. */
-    static SusuRing holders(int count, int shares, int left) {
-        SusuRing x = people(count, shares * 10 + left);
+    static Counted holders(int count, int shares, int left) {
+        Counted x = people(count, shares * 10 + left);
         for (int p = 0; p < count; p++) {
             x.buy(p, shares);
         }
         return x;
     }
 
-    static void months(SusuRing x, int count) {
+    static void months(Counted x, int count) {
         for (int month = 0; month < count; month++) {
             x.month(false);
         }
     }
 
     /** Borrows a coin and pays it back, so often. */
-    static void payBackLoans(SusuRing x, int count, int person, int first, int second) {
+    static void payBackLoans(Counted x, int count, int person, int first, int second) {
         for (int loan = 0; loan < count; loan++) {
             x.borrow(person, 1, first, second);
             x.repay(person, 1);
